@@ -4,6 +4,7 @@ public final class SubjectTest {
         Checks checks = new Checks();
         tellsOfASubject(checks);
         openOnesRightUnder(checks);
+        openOnesOfFirstAndLastKind(checks);
         unknownNumbers(checks);
         checks.end();
     }
@@ -59,6 +60,19 @@ public final class SubjectTest {
         desk.call(1, 0, 0, 0);
         checks.due("less the closed one", 2, () -> desk.subject(0, 0, 3));
         checks.due("of the closed one", 0, () -> desk.subject(1, 0, 3));
+    }
+
+    private static void openOnesOfFirstAndLastKind(Checks checks) {
+        ServiceDesk desk = new ServiceDesk();
+        desk.under(0, 3);
+        desk.under(7, 3);
+        desk.make(3, -1);
+        desk.make(0, 0);
+        checks.due("of kind 0", 1, () -> desk.subject(3, 0, 3));
+        for (int number = 0; number < 30; number++) {
+            desk.make(7, 0);
+        }
+        checks.due("and of a full kind 7", 31, () -> desk.subject(3, 0, 3));
     }
 
     private static void unknownNumbers(Checks checks) {

@@ -10,6 +10,7 @@ public final class TextTest {
         textAtRefusals(checks);
         finds(checks);
         findsOnlyOpenOnes(checks);
+        fullKinds(checks);
         findRefusals(checks);
         checks.end();
     }
@@ -118,6 +119,8 @@ public final class TextTest {
         checks.due("the lowest n bytes alone", 1, () -> desk.find(0, 0x99_4142L, 2));
         checks.due("three", 2, () -> desk.find(0, 0x414243, 3));
         checks.due("only a part", -1, () -> desk.find(0, 0x41, 1));
+        checks.due("another first byte", -1, () -> desk.find(0, 0x5142, 2));
+        checks.due("another last byte", -1, () -> desk.find(0, 0x4152, 2));
         checks.due("its end", -1, () -> desk.find(0, 0x4243, 2));
         checks.due("the other way round", -1, () -> desk.find(0, 0x4241, 2));
         checks.due("with a 0 before", -1, () -> desk.find(0, 0x4142, 3));
@@ -139,6 +142,24 @@ public final class TextTest {
         checks.due("none is open", -1, () -> desk.find(0, 65, 1));
         desk.call(0, 1, 0, 0);
         checks.due("none is open, no text", -1, () -> desk.find(0, 0, 0));
+    }
+
+    private static void fullKinds(Checks checks) {
+        ServiceDesk desk = deskOf(30);
+        for (int number = 0; number < 30; number++) {
+            desk.make(1, -1);
+            desk.make(7, -1);
+        }
+        desk.text(1, 0, 65, 1);
+        checks.due("the next kind's first is not of this kind", -1, () -> desk.find(0, 65, 1));
+        checks.due("behind the last of all", -1, () -> desk.find(7, 65, 1));
+        desk.text(0, 29, -1, 8);
+        checks.due("full", 16, () -> desk.text(0, 29, -1, 8));
+        checks.due("the next one's text stays", 65, () -> desk.textAt(1, 0, 0));
+        desk.text(7, 29, -1, 8);
+        checks.due("the last of all is full", 16, () -> desk.text(7, 29, 7, 8));
+        checks.due("its last byte", 7, () -> desk.textAt(7, 29, 15));
+        checks.due("behind it", -1, () -> desk.textAt(7, 29, 16));
     }
 
     private static void findRefusals(Checks checks) {

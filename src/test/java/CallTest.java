@@ -1,218 +1,166 @@
-/** Promise 5: call. */
+/** Promise 5: call: its turns and refusals; what verbs answer is in ModeTest. */
 public final class CallTest {
-    private static final long FAILED = -9_000_000_000_000L;
+    private static final int[] NOT_0_TO_7 = {Integer.MIN_VALUE, -1, 8, 9, Integer.MAX_VALUE};
+    private static final int[] TOO_FAR =
+            {Integer.MIN_VALUE, -1_000_001, 1_000_001, Integer.MAX_VALUE};
 
     public static void main(String[] args) {
         Checks checks = new Checks();
-        tell(checks);
-        add(checks);
-        read(checks);
-        fail(checks);
-        part(checks);
-        pass(checks);
-        close(checks);
-        closeWithOpenOnesUnder(checks);
-        refusalsAreTold(checks);
-        orderOfRefusals(checks);
-        failuresChangeNothing(checks);
+        isATurn(checks);
+        fineOnesAreNotTold(checks);
+        unknownKind(checks);
+        unknownSubject(checks);
+        unknownSubjectOfAFullKind(checks);
+        unknownVerb(checks);
+        verbWithoutAMode(checks);
+        argumentOutOfRange(checks);
+        closedSubject(checks);
+        unknownBeforeRange(checks);
+        unknownBeforeState(checks);
+        rangeBeforeState(checks);
+        refusalBeforeFailure(checks);
         checks.end();
     }
 
-    private static ServiceDesk deskWith(int mode, int a, int b) {
-        ServiceDesk desk = new ServiceDesk();
-        desk.make(0, -1);
-        desk.make(0, -1);
-        desk.make(0, -1);
-        desk.verb(0, 0, mode, a, b);
-        desk.verb(0, 1, 2, 1000, 0);
-        desk.verb(0, 2, 2, 1, 0);
-        return desk;
+    private static OnScene filled(Checks checks) {
+        return new OnScene(checks, Scene::filled);
     }
 
-    private static void failsWith(Checks checks, ServiceDesk desk, int kind, int[] numbers) {
-        int rows = desk.count(1);
-        int turns = desk.count(0);
-        checks.due("failure " + kind, FAILED - kind,
-                () -> desk.call(numbers[0], numbers[1], numbers[2], numbers[3]));
-        rowIs(checks, desk, rows, new int[] {turns + 1, numbers[0], numbers[1], numbers[2], kind});
+    private static void unknown(OnScene scene, int[] call) {
+        String what = call[0] + " " + call[1] + " " + call[2] + " " + call[3];
+        scene.refusesAndTells(what, Checks.UNKNOWN, 13, call);
     }
 
-    private static void rowIs(Checks checks, ServiceDesk desk, int row, int[] numbers) {
-        checks.due("rows", row + 1, () -> desk.count(1));
-        for (int what = 0; what < 5; what++) {
-            int w = what;
-            checks.due("row " + row + " " + w, numbers[w], () -> desk.row(row, w));
+    /** "A CALL .. is a TURN". */
+    private static void isATurn(Checks checks) {
+        int turns = Scene.filled().desk.count(0);
+        for (int verb = 1; verb < 8; verb++) {
+            int v = verb;
+            filled(checks).takes("verb " + v, desk -> desk.call(1, 0, v, 5), turns + 1,
+                    desk -> desk.count(0));
         }
     }
 
-    private static void tell(Checks checks) {
-        ServiceDesk desk = deskWith(1, -1000, 7);
-        checks.due("of subject 0", 7, () -> desk.call(0, 0, 0, 1_000_000));
-        checks.due("of subject 2", -1993, () -> desk.call(0, 2, 0, -1_000_000));
-        checks.due("turns", 2, () -> desk.count(0));
-        checks.due("no rows", 0, () -> desk.count(1));
-        checks.due("the sum stays", 0, () -> desk.subject(0, 2, 2));
-    }
-
-    private static void add(Checks checks) {
-        ServiceDesk desk = deskWith(2, 3, -1);
-        checks.due("one", 29, () -> desk.call(0, 1, 0, 10));
-        checks.due("more", 22, () -> desk.call(0, 1, 0, -2));
-        checks.due("kept", 22, () -> desk.subject(0, 1, 2));
-        checks.due("not another's", 0, () -> desk.subject(0, 0, 2));
-        checks.due("highest", 1_000_000_000, () -> desk.call(0, 2, 1, 1_000_000));
-        failsWith(checks, desk, 9, new int[] {0, 2, 2, 1});
-        checks.due("still highest", 1_000_000_000, () -> desk.call(0, 2, 2, 0));
-        failsWith(checks, desk, 9, new int[] {0, 2, 1, 1_000_000});
-        checks.due("back", 0, () -> desk.call(0, 2, 1, -1_000_000));
-        checks.due("lowest", -1_000_000_000, () -> desk.call(0, 2, 1, -1_000_000));
-        failsWith(checks, desk, 9, new int[] {0, 2, 2, -1});
-        failsWith(checks, desk, 9, new int[] {0, 2, 1, -1_000_000});
-        checks.due("still lowest", -1_000_000_000, () -> desk.subject(0, 2, 2));
-    }
-
-    private static void read(Checks checks) {
-        ServiceDesk desk = deskWith(3, 1000, 1000);
-        desk.call(0, 1, 1, 1_000_000);
-        desk.call(0, 2, 1, -1_000_000);
-        checks.due("of 0", 1005, () -> desk.call(0, 0, 0, 5));
-        checks.due("of the highest", 1_000_001_001_000L, () -> desk.call(0, 1, 0, 1_000_000));
-        checks.due("of the lowest", -1_000_000_999_000L, () -> desk.call(0, 2, 0, -1_000_000));
-        desk.verb(0, 0, 3, 1000, -1000);
-        checks.due("lowest of all", -1_000_001_001_000L, () -> desk.call(0, 2, 0, -1_000_000));
-        checks.due("no rows", 0, () -> desk.count(1));
-        checks.due("the sum stays", 1_000_000_000, () -> desk.subject(0, 1, 2));
-    }
-
-    private static void fail(Checks checks) {
-        int[] as = {0, 1, 6, 7, 8, 9, 1000, -1, -8, -1000};
-        int[] kinds = {1, 2, 7, 8, 1, 2, 1, 8, 1, 1};
-        for (int i = 0; i < as.length; i++) {
-            failsWith(checks, deskWith(4, as[i], 3), kinds[i], new int[] {0, 2, 0, 4});
+    /** "one that is refused or fails is told by a ROW": others are not. */
+    private static void fineOnesAreNotTold(Checks checks) {
+        int rows = Scene.filled().desk.count(1);
+        for (int verb = 1; verb < 8; verb++) {
+            int v = verb;
+            filled(checks).takes("verb " + v, desk -> desk.call(1, 0, v, 5),
+                    v == 4 ? rows + 1 : rows, desk -> desk.count(1));
         }
     }
 
-    private static void part(Checks checks) {
-        ServiceDesk desk = deskWith(5, 999, 10);
-        desk.call(0, 1, 2, 26);
-        desk.call(0, 2, 2, -26);
-        checks.due("26 over 3", 18, () -> desk.call(0, 1, 0, 3));
-        checks.due("26 over -3", 2, () -> desk.call(0, 1, 0, -3));
-        checks.due("-26 over 3", 2, () -> desk.call(0, 2, 0, 3));
-        checks.due("-26 over -3", 18, () -> desk.call(0, 2, 0, -3));
-        checks.due("26 over 27", 10, () -> desk.call(0, 1, 0, 27));
-        failsWith(checks, desk, 10, new int[] {0, 1, 0, 0});
-        failsWith(checks, desk, 10, new int[] {0, 0, 0, 0});
-        checks.due("the sum stays", 26, () -> desk.subject(0, 1, 2));
-    }
-
-    private static void pass(Checks checks) {
-        ServiceDesk desk = deskWith(6, 5, 5);
-        desk.under(1, 0);
-        desk.make(1, 2);
-        desk.make(1, 0);
-        desk.verb(1, 0, 6, 5, 5);
-        checks.due("to 2", 500, () -> desk.call(1, 0, 0, 500));
-        checks.due("to 0", -7, () -> desk.call(1, 1, 0, -7));
-        checks.due("sum of 2", 500, () -> desk.subject(0, 2, 2));
-        checks.due("sum of 0", -7, () -> desk.subject(0, 0, 2));
-        checks.due("own sum", 0, () -> desk.subject(1, 0, 2));
-        failsWith(checks, desk, 11, new int[] {0, 0, 0, 1});
-        failsWith(checks, desk, 11, new int[] {0, 2, 0, 0});
-        desk.call(0, 2, 1, 999_999);
-        failsWith(checks, desk, 9, new int[] {1, 0, 0, 501});
-        checks.due("to the highest", 1_000_000_000, () -> desk.call(1, 0, 0, 500));
-        desk.call(0, 0, 1, -999_999);
-        failsWith(checks, desk, 9, new int[] {1, 1, 0, -994});
-        checks.due("to the lowest", -1_000_000_000, () -> desk.call(1, 1, 0, -993));
-    }
-
-    private static void close(Checks checks) {
-        ServiceDesk desk = deskWith(7, 5, 5);
-        desk.make(1, -1);
-        desk.text(0, 1, 65, 1);
-        checks.due("one", 2, () -> desk.call(0, 1, 0, 5));
-        checks.due("it is closed", 0, () -> desk.subject(0, 1, 1));
-        checks.due("another is not", 1, () -> desk.subject(0, 0, 1));
-        checks.throwing("again", Checks.STATE, () -> desk.call(0, 1, 0, 5));
-        checks.due("the next", 1, () -> desk.call(0, 0, 0, 0));
-        checks.due("the last", 0, () -> desk.call(0, 2, 0, 0));
-        checks.due("open ones", 1, () -> desk.count(3));
-        checks.due("its text stays", 65, () -> desk.textAt(0, 1, 0));
-    }
-
-    private static void closeWithOpenOnesUnder(Checks checks) {
-        ServiceDesk desk = deskWith(7, 0, 0);
-        desk.under(1, 0);
-        desk.under(7, 0);
-        desk.under(2, 1);
-        desk.verb(1, 0, 7, 0, 0);
-        desk.verb(2, 0, 7, 0, 0);
-        desk.verb(7, 0, 7, 0, 0);
-        desk.make(1, 1);
-        desk.make(7, 1);
-        desk.make(2, 0);
-        failsWith(checks, desk, 12, new int[] {0, 1, 0, 0});
-        failsWith(checks, desk, 12, new int[] {1, 0, 0, 0});
-        checks.due("the lowest", 0, () -> desk.call(2, 0, 0, 0));
-        checks.due("the middle", 0, () -> desk.call(1, 0, 0, 0));
-        failsWith(checks, desk, 12, new int[] {0, 1, 0, 0});
-        checks.due("still open", 1, () -> desk.subject(0, 1, 1));
-        checks.due("of the other kind", 0, () -> desk.call(7, 0, 0, 0));
-        checks.due("none is under it", 2, () -> desk.call(0, 1, 0, 0));
-        checks.due("none ever was", 1, () -> desk.call(0, 0, 0, 0));
-    }
-
-    private static void refusalsAreTold(Checks checks) {
-        ServiceDesk desk = deskWith(7, 0, 0);
-        int[][] calls = {
-            {-1, 0, 0, 0}, {8, 0, 0, 0}, {Integer.MIN_VALUE, 0, 0, 0}, {Integer.MAX_VALUE, 1, 2, 0},
-            {0, -1, 0, 0}, {0, 3, 0, 0}, {0, Integer.MAX_VALUE, 0, 0}, {0, Integer.MIN_VALUE, 0, 0},
-            {0, 0, -1, 0}, {0, 0, 8, 0}, {0, 0, Integer.MAX_VALUE, 0}, {0, 0, Integer.MIN_VALUE, 0},
-            {0, 0, 3, 0}, {1, 0, 0, 0},
-        };
-        for (int i = 0; i < calls.length; i++) {
-            int[] c = calls[i];
-            checks.throwing("unknown", Checks.UNKNOWN, () -> desk.call(c[0], c[1], c[2], c[3]));
-            rowIs(checks, desk, i, new int[] {i + 1, c[0], c[1], c[2], 13});
+    /** "Unknown: no such kind": told as it was called. */
+    private static void unknownKind(Checks checks) {
+        for (int wrong : NOT_0_TO_7) {
+            unknown(filled(checks), new int[] {wrong, 0, 1, 0});
         }
-        int rows = calls.length;
-        int[] wild = {-1_000_001, 1_000_001, Integer.MIN_VALUE, Integer.MAX_VALUE};
+        filled(checks).takes("kind 0", -2, desk -> desk.call(0, 0, 1, 0));
+        filled(checks).takes("kind 7", -2, desk -> desk.call(7, 0, 1, 0));
+        unknown(filled(checks), new int[] {3, 0, 1, 0});
+    }
+
+    /** "Unknown: no such .. subject": told as it was called. */
+    private static void unknownSubject(Checks checks) {
+        int[] wild = {Integer.MIN_VALUE, -1, 3, 4, 29, 30, Integer.MAX_VALUE};
         for (int wrong : wild) {
-            checks.throwing("argument " + wrong, Checks.RANGE, () -> desk.call(0, 2, 1, wrong));
-            rows++;
-            rowIs(checks, desk, rows - 1, new int[] {rows, 0, 2, 1, 14});
+            unknown(filled(checks), new int[] {0, wrong, 1, 0});
+            unknown(filled(checks), new int[] {1, wrong, 1, 0});
         }
-        desk.call(0, 1, 0, 0);
-        checks.throwing("closed", Checks.STATE, () -> desk.call(0, 1, 2, 0));
-        rowIs(checks, desk, rows, new int[] {rows + 2, 0, 1, 2, 15});
-        checks.due("turns", rows + 2, () -> desk.count(0));
+        filled(checks).takes("the first", -2, desk -> desk.call(1, 0, 1, 0));
+        OnScene three = new OnScene(checks, () -> new Scene().make(0, -1, 3).verb(0, 1, 1, 3, -2));
+        three.takes("the last", 4, desk -> desk.call(0, 2, 1, 0));
+        unknown(three, new int[] {0, 3, 1, 0});
     }
 
-    private static void orderOfRefusals(Checks checks) {
-        ServiceDesk desk = deskWith(7, 0, 0);
-        desk.call(0, 1, 0, 0);
-        checks.throwing("unknown before range", Checks.UNKNOWN,
-                () -> desk.call(0, 0, 7, 1_000_001));
-        checks.throwing("unknown before state", Checks.UNKNOWN, () -> desk.call(0, 1, 7, 0));
-        checks.throwing("range before state", Checks.RANGE, () -> desk.call(0, 1, 0, 1_000_001));
-        checks.due("first row", 13, () -> desk.row(0, 4));
-        checks.due("second row", 13, () -> desk.row(1, 4));
-        checks.due("third row", 14, () -> desk.row(2, 4));
-        desk.verb(0, 3, 4, 0, 0);
-        checks.throwing("state before a failure", Checks.STATE, () -> desk.call(0, 1, 3, 0));
+    /** What lies behind the 30th is no subject, nor the next kind's first. */
+    private static void unknownSubjectOfAFullKind(Checks checks) {
+        OnScene full = new OnScene(checks, () -> new Scene().make(0, -1, 30).make(1, -1, 2)
+                .verb(0, 1, 1, 3, -2).verb(1, 1, 1, 3, -2));
+        full.takes("the 30th", 85, desk -> desk.call(0, 29, 1, 0));
+        unknown(full, new int[] {0, 30, 1, 0});
+        unknown(full, new int[] {1, -1, 1, 0});
     }
 
-    private static void failuresChangeNothing(Checks checks) {
-        ServiceDesk desk = deskWith(4, 0, 0);
-        desk.call(0, 1, 2, 77);
-        desk.call(0, 1, 0, 0);
-        desk.verb(0, 3, 5, 0, 0);
-        desk.call(0, 1, 3, 0);
-        checks.throwing("refused", Checks.RANGE, () -> desk.call(0, 1, 2, 1_000_001));
-        checks.due("the sum", 77, () -> desk.subject(0, 1, 2));
-        checks.due("open ones", 3, () -> desk.count(3));
-        checks.due("turns", 4, () -> desk.count(0));
-        checks.due("rows", 3, () -> desk.count(1));
+    /** "Unknown: no such .. verb (0 .. 7 ..)": told as it was called. */
+    private static void unknownVerb(Checks checks) {
+        for (int wrong : NOT_0_TO_7) {
+            unknown(filled(checks), new int[] {1, 0, wrong, 0});
+        }
+        OnScene ends = new OnScene(checks, () -> new Scene().make(1, -1, 1).allModes(0).allModes(2)
+                .verb(1, 0, 1, 0, 40).verb(1, 7, 1, 0, 47));
+        ends.takes("the first", 40, desk -> desk.call(1, 0, 0, 0));
+        ends.takes("the last", 47, desk -> desk.call(1, 0, 7, 0));
+        unknown(ends, new int[] {1, 0, -1, 0});
+        unknown(ends, new int[] {1, 0, 8, 0});
+    }
+
+    /** "(.. with a mode)". */
+    private static void verbWithoutAMode(Checks checks) {
+        unknown(filled(checks), new int[] {1, 0, 0, 0});
+        OnScene taken = new OnScene(checks, () -> Scene.filled().verb(1, 1, 0, 5, 5));
+        unknown(taken, new int[] {1, 0, 1, 0});
+        OnScene another = new OnScene(checks, () -> new Scene().make(2, -1, 1).verb(1, 1, 1, 5, 5));
+        unknown(another, new int[] {2, 0, 1, 0});
+    }
+
+    /** "range: the argument", -1,000,000 .. 1,000,000, whether the verb uses it or not. */
+    private static void argumentOutOfRange(Checks checks) {
+        for (int verb = 1; verb < 8; verb++) {
+            for (int wrong : TOO_FAR) {
+                filled(checks).refusesAndTells("verb " + verb + " of " + wrong, Checks.RANGE, 14,
+                        new int[] {1, 0, verb, wrong});
+            }
+        }
+        filled(checks).takes("the lowest", -1_000_000 - 89, desk -> desk.call(1, 0, 3, -1_000_000));
+        filled(checks).takes("the highest", 1_000_000 - 89, desk -> desk.call(1, 0, 3, 1_000_000));
+    }
+
+    /** "state: the subject is closed". */
+    private static void closedSubject(Checks checks) {
+        for (int verb = 1; verb < 8; verb++) {
+            filled(checks).refusesAndTells("verb " + verb, Checks.STATE, 15,
+                    new int[] {0, 2, verb, 1});
+        }
+        filled(checks).refusesAndTells("another kind's", Checks.STATE, 15, new int[] {1, 2, 1, 0});
+        filled(checks).takes("the open one before it", 1, desk -> desk.call(1, 1, 1, 0));
+    }
+
+    /** "Refusals, in this order". */
+    private static void unknownBeforeRange(Checks checks) {
+        for (int wrong : TOO_FAR) {
+            unknown(filled(checks), new int[] {8, 0, 1, wrong});
+            unknown(filled(checks), new int[] {1, 3, 1, wrong});
+            unknown(filled(checks), new int[] {1, 0, 8, wrong});
+            unknown(filled(checks), new int[] {1, 0, 0, wrong});
+        }
+    }
+
+    /** "Refusals, in this order". */
+    private static void unknownBeforeState(Checks checks) {
+        unknown(filled(checks), new int[] {0, 2, 8, 0});
+        unknown(filled(checks), new int[] {0, 2, -1, 0});
+        unknown(filled(checks), new int[] {0, 2, 0, 0});
+        unknown(filled(checks), new int[] {0, 2, 0, 1_000_001});
+    }
+
+    /** "Refusals, in this order". */
+    private static void rangeBeforeState(Checks checks) {
+        for (int wrong : TOO_FAR) {
+            filled(checks).refusesAndTells("closed, " + wrong, Checks.RANGE, 14,
+                    new int[] {0, 2, 1, wrong});
+        }
+    }
+
+    private static void refusalBeforeFailure(Checks checks) {
+        filled(checks).refusesAndTells("state before FAIL", Checks.STATE, 15,
+                new int[] {0, 2, 4, 0});
+        filled(checks).refusesAndTells("state before a part by 0", Checks.STATE, 15,
+                new int[] {0, 2, 5, 0});
+        filled(checks).refusesAndTells("range before FAIL", Checks.RANGE, 14,
+                new int[] {0, 0, 4, 1_000_001});
+        filled(checks).refusesAndTells("range before open ones under it", Checks.RANGE, 14,
+                new int[] {0, 0, 7, -1_000_001});
     }
 }

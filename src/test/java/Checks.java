@@ -17,13 +17,7 @@ final class Checks {
     private int wrong;
 
     void due(String what, long want, Call call) {
-        String got;
-        try {
-            got = Long.toString(call.answer());
-        } catch (RuntimeException e) {
-            got = e.getClass().getName();
-        }
-        compare(what, got, Long.toString(want));
+        same(what, answerOf(call), Long.toString(want));
     }
 
     void goes(String what, Deed deed) {
@@ -35,20 +29,19 @@ final class Checks {
 
     /** The class must be just this one: a class below it would come from the machine. */
     void throwing(String what, Class<? extends RuntimeException> want, Deed deed) {
-        String got = "nothing thrown";
-        try {
+        String got = answerOf(() -> {
             deed.run();
-        } catch (RuntimeException e) {
-            got = e.getClass().getName();
-        }
-        compare(what, got, want.getName());
+            return 0;
+        });
+        same(what, got, want.getName());
     }
 
-    /** As throwing, and the refusal leaves the book and the counts as they were. */
-    void refused(ServiceDesk desk, String what, Class<? extends RuntimeException> want, Deed deed) {
-        String before = stateOf(desk);
-        throwing(what, want, deed);
-        compare(what.concat(" changes nothing"), stateOf(desk), before);
+    void same(String what, String got, String want) {
+        done++;
+        if (!got.equals(want)) {
+            wrong++;
+            System.out.println(what + ": got " + got + ", due is " + want);
+        }
     }
 
     void end() {
@@ -60,16 +53,12 @@ final class Checks {
         System.exit(1);
     }
 
-    private void compare(String what, String got, String want) {
-        done++;
-        if (!got.equals(want)) {
-            wrong++;
-            System.out.println(what + ": got " + got + ", due is " + want);
+    /** The answer, or the name of the exception's class. */
+    static String answerOf(Call call) {
+        try {
+            return Long.toString(call.answer());
+        } catch (RuntimeException e) {
+            return e.getClass().getName();
         }
-    }
-
-    private static String stateOf(ServiceDesk desk) {
-        return desk.book() + " " + desk.count(0) + " " + desk.count(1) + " " + desk.count(2)
-                + " " + desk.count(3);
     }
 }

@@ -1,97 +1,149 @@
 /** Promise 3: make. */
 public final class MakeTest {
+    private static final int[] NO_KINDS = {Integer.MIN_VALUE, -1, 8, 30, Integer.MAX_VALUE};
+
     public static void main(String[] args) {
         Checks checks = new Checks();
         numbersInOrder(checks);
+        numbersAreNeverGivenTwice(checks);
+        asNewAsTheFirst(checks);
+        unknownKind(checks);
+        underNone(checks);
         underOneOfTheKindAbove(checks);
-        unknownNumbers(checks);
-        notUnderAClosedOne(checks);
+        underAClosedOne(checks);
         thirtyOfAKind(checks);
-        ordersOfRefusals(checks);
+        thirtyOfEachKind(checks);
+        unknownBeforeNoRoom(checks);
+        stateBeforeNoRoom(checks);
         checks.end();
     }
 
+    /** "One more subject ..: its number": 0, 1, .. of each kind. */
     private static void numbersInOrder(Checks checks) {
-        ServiceDesk desk = new ServiceDesk();
-        desk.verb(0, 0, 7, 0, 0);
-        checks.due("first", 0, () -> desk.make(0, -1));
-        checks.due("second", 1, () -> desk.make(0, -1));
-        checks.due("another kind's first", 0, () -> desk.make(1, -1));
-        desk.call(0, 1, 0, 0);
-        checks.due("a closed one's number is not given twice", 2, () -> desk.make(0, -1));
-        checks.due("it is open", 1, () -> desk.subject(0, 2, 1));
-        checks.due("its sum", 0, () -> desk.subject(0, 2, 2));
-        checks.due("its text", -1, () -> desk.textAt(0, 2, 0));
-        checks.due("made", 4, () -> desk.count(2));
-    }
-
-    private static void underOneOfTheKindAbove(Checks checks) {
-        ServiceDesk desk = new ServiceDesk();
-        desk.under(5, 6);
-        checks.refused(desk, "none to be under", Checks.UNKNOWN, () -> desk.make(5, 0));
-        desk.make(6, -1);
-        desk.make(6, -1);
-        checks.due("under 1", 0, () -> desk.make(5, 1));
-        checks.due("it is under 1", 1, () -> desk.subject(5, 0, 0));
-        checks.due("under 0", 1, () -> desk.make(5, 0));
-        checks.due("it is under 0", 0, () -> desk.subject(5, 1, 0));
-        checks.refused(desk, "under 2", Checks.UNKNOWN, () -> desk.make(5, 2));
-        checks.refused(desk, "under -1", Checks.UNKNOWN, () -> desk.make(5, -1));
-        checks.refused(desk, "one under none", Checks.UNKNOWN, () -> desk.make(6, 0));
-    }
-
-    private static void unknownNumbers(Checks checks) {
-        ServiceDesk desk = new ServiceDesk();
-        desk.under(1, 0);
-        desk.make(0, -1);
-        int[] wild = {Integer.MIN_VALUE, -2, 8, 30, Integer.MAX_VALUE};
-        for (int wrong : wild) {
-            checks.refused(desk, "kind " + wrong, Checks.UNKNOWN, () -> desk.make(wrong, -1));
-            checks.refused(desk, "0 under " + wrong, Checks.UNKNOWN, () -> desk.make(0, wrong));
-            checks.refused(desk, "1 under " + wrong, Checks.UNKNOWN, () -> desk.make(1, wrong));
+        for (int kind = 0; kind < 8; kind += 7) {
+            int k = kind;
+            new OnScene(checks, () -> new Scene().make(3, -1, 5))
+                    .takes("the first", 0, desk -> desk.make(k, -1));
+            new OnScene(checks, () -> new Scene().make(3, -1, 5).make(k, -1, 1))
+                    .takes("the second", 1, desk -> desk.make(k, -1));
         }
-        checks.refused(desk, "kind -1", Checks.UNKNOWN, () -> desk.make(-1, -1));
     }
 
-    private static void notUnderAClosedOne(Checks checks) {
-        ServiceDesk desk = new ServiceDesk();
-        desk.under(1, 0);
-        desk.make(0, -1);
-        desk.make(0, -1);
-        desk.verb(0, 0, 7, 0, 0);
-        desk.call(0, 0, 0, 0);
-        checks.refused(desk, "under a closed one", Checks.STATE, () -> desk.make(1, 0));
-        checks.due("under an open one", 0, () -> desk.make(1, 1));
+    /** "never given twice". */
+    private static void numbersAreNeverGivenTwice(Checks checks) {
+        OnScene closed = new OnScene(checks, () -> new Scene().make(0, -1, 2).close(0, 1));
+        closed.takes("behind a closed one", 2, desk -> desk.make(0, -1));
+        closed.takes("the closed one stays", desk -> desk.make(0, -1), 0,
+                desk -> desk.subject(0, 1, 1));
+        OnScene allClosed = new OnScene(checks,
+                () -> new Scene().make(0, -1, 2).close(0, 1).close(0, 0));
+        allClosed.takes("behind closed ones alone", 2, desk -> desk.make(0, -1));
     }
 
+    /** "OPEN until they are CLOSED, have a SUM (0 at first) and a TEXT (.. none at first)". */
+    private static void asNewAsTheFirst(Checks checks) {
+        OnScene used = new OnScene(checks, () -> new Scene().make(0, -1, 1).sum(0, 0, 9)
+                .text(0, 0, -1, 8).text(0, 0, -1, 8).close(0, 0));
+        used.takes("open", desk -> desk.make(0, -1), 1, desk -> desk.subject(0, 1, 1));
+        used.takes("sum", desk -> desk.make(0, -1), 0, desk -> desk.subject(0, 1, 2));
+        used.takes("text", desk -> desk.make(0, -1), -1, desk -> desk.textAt(0, 1, 0));
+        used.takes("found without text", desk -> desk.make(0, -1), 1, desk -> desk.find(0, 0, 0));
+        used.takes("none under it", desk -> desk.make(0, -1), 0, desk -> desk.subject(0, 1, 3));
+    }
+
+    /** "Unknown: no such kind". */
+    private static void unknownKind(Checks checks) {
+        OnScene filled = new OnScene(checks, Scene::filled);
+        for (int wrong : NO_KINDS) {
+            filled.refuses("kind " + wrong, Checks.UNKNOWN, desk -> desk.make(wrong, -1));
+            filled.refuses("kind " + wrong + " under 0", Checks.UNKNOWN,
+                    desk -> desk.make(wrong, 0));
+        }
+    }
+
+    /** "(-1 when that is none)": any other is no such subject to be under. */
+    private static void underNone(Checks checks) {
+        OnScene filled = new OnScene(checks, Scene::filled);
+        filled.takes("-1", desk -> desk.make(0, -1), -1, desk -> desk.subject(0, 3, 0));
+        int[] wild = {Integer.MIN_VALUE, -2, 0, 1, 2, 3, 30, Integer.MAX_VALUE};
+        for (int wrong : wild) {
+            filled.refuses("0 under " + wrong, Checks.UNKNOWN, desk -> desk.make(0, wrong));
+            filled.refuses("3 under " + wrong, Checks.UNKNOWN, desk -> desk.make(3, wrong));
+        }
+    }
+
+    /** "under one of the kind that its is under .. Unknown: .. no such subject to be under". */
+    private static void underOneOfTheKindAbove(Checks checks) {
+        OnScene empty = new OnScene(checks, () -> new Scene().under(5, 6).make(4, -1, 2));
+        empty.refuses("none to be under", Checks.UNKNOWN, desk -> desk.make(5, 0));
+        OnScene three = new OnScene(checks,
+                () -> new Scene().under(5, 6).make(6, -1, 3).make(7, -1, 9).make(4, -1, 9));
+        for (int above = 0; above < 3; above++) {
+            int a = above;
+            three.takes("under " + a, desk -> desk.make(5, a), a, desk -> desk.subject(5, 0, 0));
+        }
+        int[] wild = {Integer.MIN_VALUE, -2, -1, 3, 4, 8, 30, Integer.MAX_VALUE};
+        for (int wrong : wild) {
+            three.refuses("under " + wrong, Checks.UNKNOWN, desk -> desk.make(5, wrong));
+        }
+        OnScene full = new OnScene(checks,
+                () -> new Scene().under(0, 6).make(6, -1, 30).make(7, -1, 1));
+        full.takes("under the last", desk -> desk.make(0, 29), 29, desk -> desk.subject(0, 0, 0));
+        full.refuses("behind the last", Checks.UNKNOWN, desk -> desk.make(0, 30));
+    }
+
+    /** "state: that one is closed". */
+    private static void underAClosedOne(Checks checks) {
+        OnScene three = new OnScene(checks, () -> new Scene().under(1, 0).make(0, -1, 3)
+                .make(1, 1, 1).close(1, 0).close(0, 1));
+        three.refuses("under the closed one", Checks.STATE, desk -> desk.make(1, 1));
+        three.takes("under the one before it", 1, desk -> desk.make(1, 0));
+        three.takes("under the one behind it", 1, desk -> desk.make(1, 2));
+        three.takes("beside it", 3, desk -> desk.make(0, -1));
+    }
+
+    /** "no room: there are 30". */
     private static void thirtyOfAKind(Checks checks) {
+        OnScene room = new OnScene(checks, () -> new Scene().make(3, -1, 29).make(4, -1, 1));
+        room.takes("the 30th", 29, desk -> desk.make(3, -1));
+        OnScene full = new OnScene(checks, () -> new Scene().make(3, -1, 30).make(4, -1, 1));
+        full.refuses("the 31st", Checks.NO_ROOM, desk -> desk.make(3, -1));
+        full.takes("another kind's", 1, desk -> desk.make(4, -1));
+        OnScene closed = new OnScene(checks, () -> new Scene().make(3, -1, 30).close(3, 29));
+        closed.refuses("closing makes no room", Checks.NO_ROOM, desk -> desk.make(3, -1));
+        OnScene under = new OnScene(checks,
+                () -> new Scene().under(1, 0).make(0, -1, 2).make(1, 0, 29).make(1, 1, 1));
+        under.refuses("30 under two", Checks.NO_ROOM, desk -> desk.make(1, 1));
+    }
+
+    private static void thirtyOfEachKind(Checks checks) {
         ServiceDesk desk = new ServiceDesk();
         for (int kind = 0; kind < 8; kind++) {
+            int k = kind;
             for (int number = 0; number < 30; number++) {
-                int k = kind;
                 checks.due("make " + k, number, () -> desk.make(k, -1));
             }
-            int k = kind;
-            checks.refused(desk, "the 31st of " + k, Checks.NO_ROOM, () -> desk.make(k, -1));
+            checks.throwing("the 31st of " + k, Checks.NO_ROOM, () -> desk.make(k, -1));
         }
         checks.due("made", 240, () -> desk.count(2));
-        desk.verb(7, 7, 7, 0, 0);
-        checks.due("close one", 29, () -> desk.call(7, 29, 7, 0));
-        checks.refused(desk, "closing makes no room", Checks.NO_ROOM, () -> desk.make(7, -1));
+        checks.due("open", 240, () -> desk.count(3));
     }
 
-    private static void ordersOfRefusals(Checks checks) {
-        ServiceDesk desk = new ServiceDesk();
-        desk.under(1, 0);
-        desk.make(0, -1);
-        desk.make(0, -1);
-        for (int number = 0; number < 30; number++) {
-            desk.make(1, 0);
-        }
-        desk.verb(0, 0, 7, 0, 0);
-        desk.call(0, 1, 0, 0);
-        checks.refused(desk, "unknown before no room", Checks.UNKNOWN, () -> desk.make(1, 2));
-        checks.refused(desk, "state before no room", Checks.STATE, () -> desk.make(1, 1));
-        checks.refused(desk, "no room", Checks.NO_ROOM, () -> desk.make(1, 0));
+    /** "Refusals, in this order". */
+    private static void unknownBeforeNoRoom(Checks checks) {
+        OnScene full = new OnScene(checks,
+                () -> new Scene().under(1, 0).make(0, -1, 1).make(1, 0, 30).make(2, -1, 30));
+        full.refuses("no such one above", Checks.UNKNOWN, desk -> desk.make(1, 1));
+        full.refuses("not under none", Checks.UNKNOWN, desk -> desk.make(1, -1));
+        full.refuses("only under none", Checks.UNKNOWN, desk -> desk.make(2, 0));
+        full.refuses("no room", Checks.NO_ROOM, desk -> desk.make(1, 0));
+    }
+
+    /** "Refusals, in this order". */
+    private static void stateBeforeNoRoom(Checks checks) {
+        OnScene full = new OnScene(checks, () -> new Scene().under(1, 0).make(0, -1, 2)
+                .make(1, 0, 30).close(0, 1));
+        full.refuses("closed above", Checks.STATE, desk -> desk.make(1, 1));
+        full.refuses("open above", Checks.NO_ROOM, desk -> desk.make(1, 0));
     }
 }

@@ -1,7 +1,10 @@
 /** Long runs of mixed calls, right and wild ones, answered as the model answers them. */
 public final class ModelTest {
     private static final int RUNS = 1_500;
-    private static final int CALLS = 512;
+
+    /** With the book at the end, all that an object is promised for. */
+    private static final int CALLS = 511;
+
     private static final int[] WILD = {Integer.MIN_VALUE, -1_000_001, -1001, -2, -1, 8, 9, 29, 30,
         31, 80, 1001, 1_000_001, 1_000_000_000, Integer.MAX_VALUE};
     private static final int[] ARGUMENTS = {0, 1, -1, 2, 3, -7, 500, 999_999, 1_000_000, -1_000_000};

@@ -1,41 +1,59 @@
+import java.util.Collections;
+import java.util.List;
+import java.util.ArrayList;
+
 /** Promise 1: a new object. */
 public final class NewObjectTest {
     public static void main(String[] args) {
         Checks checks = new Checks();
-        nothingIsThere(checks);
+        noSubjects(checks);
+        noTurnsNoRowsNoTime(checks);
         kindsAreUnderNone(checks);
         verbsHaveNoModes(checks);
         objectsAreApart(checks);
         checks.end();
     }
 
-    private static void nothingIsThere(Checks checks) {
-        ServiceDesk desk = new ServiceDesk();
-        checks.due("book", -428131732, desk::book);
-        for (int what = 0; what < 4; what++) {
-            int w = what;
-            checks.due("count " + w, 0, () -> desk.count(w));
-        }
+    /** "No subjects". */
+    private static void noSubjects(Checks checks) {
+        OnScene fresh = new OnScene(checks, Scene::new);
+        fresh.answers("subjects", 0, desk -> desk.count(2));
+        fresh.answers("open ones", 0, desk -> desk.count(3));
         for (int kind = 0; kind < 8; kind++) {
             int k = kind;
-            checks.due("find in kind " + k, -1, () -> desk.find(k, 0, 0));
-            checks.throwing("subject of kind " + k, Checks.UNKNOWN, () -> desk.subject(k, 0, 0));
-            checks.throwing("text of kind " + k, Checks.UNKNOWN, () -> desk.textAt(k, 0, 0));
+            fresh.answers("find in " + k, -1, desk -> desk.find(k, 0, 0));
+            fresh.refuses("subject of " + k, Checks.UNKNOWN, desk -> desk.subject(k, 0, 0));
+            fresh.refuses("text of " + k, Checks.UNKNOWN, desk -> desk.text(k, 0, 0, 1));
+            fresh.refuses("textAt of " + k, Checks.UNKNOWN, desk -> desk.textAt(k, 0, 0));
+            fresh.takes("the first of " + k, 0, desk -> desk.make(k, -1));
         }
-        checks.throwing("row", Checks.UNKNOWN, () -> desk.row(0, 0));
-        checks.due("clock", 1, () -> desk.tick(1));
     }
 
+    private static void noTurnsNoRowsNoTime(Checks checks) {
+        OnScene fresh = new OnScene(checks, Scene::new);
+        fresh.answers("turns", 0, desk -> desk.count(0));
+        fresh.answers("rows", 0, desk -> desk.count(1));
+        fresh.refuses("row 0", Checks.UNKNOWN, desk -> desk.row(0, 0));
+        fresh.takes("the clock from 0", 1, desk -> desk.tick(1));
+    }
+
+    /** "kinds are under none". */
     private static void kindsAreUnderNone(Checks checks) {
-        ServiceDesk desk = new ServiceDesk();
+        List<Integer> numbers = new ArrayList<>(List.of(0, 0));
+        numbers.addAll(Collections.nCopies(8, -1));
+        OnScene fresh = new OnScene(checks, Scene::new);
+        fresh.answers("the book", Sight.sumOf(numbers), ServiceDesk::book);
+        fresh.answers("the book as the shared test has it", -428131732, ServiceDesk::book);
+        OnScene one = new OnScene(checks, () -> new Scene().make(3, -1, 1));
         for (int kind = 0; kind < 8; kind++) {
             int k = kind;
-            checks.refused(desk, "make under 0", Checks.UNKNOWN, () -> desk.make(k, 0));
-            checks.due("make under none", 0, () -> desk.make(k, -1));
-            checks.due("it is under none", -1, () -> desk.subject(k, 0, 0));
+            one.refuses(k + " under 0", Checks.UNKNOWN, desk -> desk.make(k, 0));
+            one.takes(k + " under none", desk -> desk.make(k, -1), -1,
+                    desk -> desk.subject(k, 0, 0));
         }
     }
 
+    /** "verbs without modes". */
     private static void verbsHaveNoModes(Checks checks) {
         ServiceDesk desk = new ServiceDesk();
         for (int kind = 0; kind < 8; kind++) {
@@ -50,14 +68,9 @@ public final class NewObjectTest {
     }
 
     private static void objectsAreApart(Checks checks) {
-        ServiceDesk one = new ServiceDesk();
-        ServiceDesk other = new ServiceDesk();
-        one.under(1, 0);
-        one.make(0, -1);
-        one.verb(0, 0, 1, 1, 1);
-        one.text(0, 0, 65, 1);
-        one.tick(9);
-        checks.due("the other's book", -428131732, other::book);
-        checks.due("the other's make", 0, () -> other.make(1, -1));
+        Scene.filled();
+        OnScene fresh = new OnScene(checks, Scene::new);
+        fresh.answers("the book beside a filled desk", -428131732, ServiceDesk::book);
+        fresh.takes("its first", 0, desk -> desk.make(1, -1));
     }
 }

@@ -2,90 +2,127 @@
 public final class SubjectTest {
     public static void main(String[] args) {
         Checks checks = new Checks();
-        tellsOfASubject(checks);
+        theOneItIsUnder(checks);
+        whetherItIsOpen(checks);
+        itsSum(checks);
         openOnesRightUnder(checks);
-        openOnesOfFirstAndLastKind(checks);
-        unknownNumbers(checks);
+        openOnesOfAllKindsUnderItsKind(checks);
+        openOnesOfFullKinds(checks);
+        unknownKind(checks);
+        unknownSubject(checks);
+        unknownWhat(checks);
         checks.end();
     }
 
-    private static void subjectIs(Checks checks, ServiceDesk desk, int[] which, int[] want) {
-        for (int what = 0; what < 4; what++) {
-            int w = what;
-            checks.due("subject " + which[0] + " " + which[1] + " " + w, want[w],
-                    () -> desk.subject(which[0], which[1], w));
+    private static OnScene filled(Checks checks) {
+        return new OnScene(checks, Scene::filled);
+    }
+
+    /** "0 the one it is under (-1)". */
+    private static void theOneItIsUnder(Checks checks) {
+        filled(checks).answers("under none", -1, desk -> desk.subject(0, 1, 0));
+        filled(checks).answers("under the first", 0, desk -> desk.subject(1, 1, 0));
+        filled(checks).answers("under another", 1, desk -> desk.subject(2, 0, 0));
+        filled(checks).answers("a closed one", 0, desk -> desk.subject(1, 2, 0));
+        OnScene last = new OnScene(checks,
+                () -> new Scene().under(7, 6).make(6, -1, 30).make(7, 29, 1));
+        last.answers("under the 30th", 29, desk -> desk.subject(7, 0, 0));
+    }
+
+    /** "1 whether it is open (1, 0)". */
+    private static void whetherItIsOpen(Checks checks) {
+        filled(checks).answers("open", 1, desk -> desk.subject(0, 1, 1));
+        filled(checks).answers("closed", 0, desk -> desk.subject(0, 2, 1));
+    }
+
+    /** "2 its sum". */
+    private static void itsSum(Checks checks) {
+        filled(checks).answers("at first", 0, desk -> desk.subject(2, 0, 2));
+        filled(checks).answers("above 0", 148, desk -> desk.subject(0, 1, 2));
+        filled(checks).answers("below 0", -29, desk -> desk.subject(1, 0, 2));
+        filled(checks).answers("passed", 7, desk -> desk.subject(0, 0, 2));
+        filled(checks).answers("a closed one's", 5, desk -> desk.subject(1, 2, 2));
+        int[] ends = {1_000_000_000, -1_000_000_000};
+        for (int end : ends) {
+            new OnScene(checks, () -> new Scene().make(0, -1, 1).sum(0, 0, end))
+                    .answers("sum " + end, end, desk -> desk.subject(0, 0, 2));
         }
     }
 
-    private static void tellsOfASubject(Checks checks) {
-        ServiceDesk desk = new ServiceDesk();
-        desk.under(4, 3);
-        desk.make(3, -1);
-        desk.make(3, -1);
-        desk.make(4, 1);
-        desk.verb(4, 0, 2, 1, 0);
-        desk.verb(4, 1, 7, 0, 0);
-        subjectIs(checks, desk, new int[] {3, 1}, new int[] {-1, 1, 0, 1});
-        subjectIs(checks, desk, new int[] {4, 0}, new int[] {1, 1, 0, 0});
-        desk.call(4, 0, 0, -55);
-        subjectIs(checks, desk, new int[] {4, 0}, new int[] {1, 1, -55, 0});
-        desk.call(4, 0, 1, 0);
-        subjectIs(checks, desk, new int[] {4, 0}, new int[] {1, 0, -55, 0});
-        subjectIs(checks, desk, new int[] {3, 1}, new int[] {-1, 1, 0, 0});
-        checks.due("asking is no turn", 2, () -> desk.count(0));
-    }
-
+    /** "3 open ones right under it": not those that are closed, nor those farther below. */
     private static void openOnesRightUnder(Checks checks) {
-        ServiceDesk desk = new ServiceDesk();
-        desk.under(1, 0);
-        desk.under(2, 0);
-        desk.under(3, 1);
-        desk.make(0, -1);
-        desk.make(0, -1);
-        desk.make(1, 0);
-        desk.make(1, 0);
-        desk.make(1, 1);
-        desk.make(2, 0);
-        desk.make(3, 0);
-        desk.make(3, 1);
-        desk.make(4, -1);
-        desk.verb(1, 0, 7, 0, 0);
-        desk.verb(3, 0, 7, 0, 0);
-        checks.due("of two kinds, not farther below", 3, () -> desk.subject(0, 0, 3));
-        checks.due("another's", 1, () -> desk.subject(0, 1, 3));
-        checks.due("in the middle", 1, () -> desk.subject(1, 0, 3));
-        checks.due("at the end", 0, () -> desk.subject(3, 0, 3));
-        checks.due("of no kind", 0, () -> desk.subject(4, 0, 3));
-        desk.call(3, 0, 0, 0);
-        desk.call(1, 0, 0, 0);
-        checks.due("less the closed one", 2, () -> desk.subject(0, 0, 3));
-        checks.due("of the closed one", 0, () -> desk.subject(1, 0, 3));
+        filled(checks).answers("two of one kind, one of another", 3,
+                desk -> desk.subject(0, 0, 3));
+        filled(checks).answers("none", 0, desk -> desk.subject(0, 1, 3));
+        filled(checks).answers("of a closed one", 0, desk -> desk.subject(0, 2, 3));
+        filled(checks).answers("in the middle", 1, desk -> desk.subject(1, 1, 3));
+        filled(checks).answers("at the end", 0, desk -> desk.subject(2, 0, 3));
+        OnScene closed = new OnScene(checks, () -> Scene.filled().close(1, 0).close(7, 0));
+        closed.answers("one is left", 1, desk -> desk.subject(0, 0, 3));
     }
 
-    private static void openOnesOfFirstAndLastKind(Checks checks) {
-        ServiceDesk desk = new ServiceDesk();
-        desk.under(0, 3);
-        desk.under(7, 3);
-        desk.make(3, -1);
-        desk.make(0, 0);
-        checks.due("of kind 0", 1, () -> desk.subject(3, 0, 3));
-        for (int number = 0; number < 30; number++) {
-            desk.make(7, 0);
-        }
-        checks.due("and of a full kind 7", 31, () -> desk.subject(3, 0, 3));
+    /** "(of all kinds under its kind)". */
+    private static void openOnesOfAllKindsUnderItsKind(Checks checks) {
+        OnScene seven = new OnScene(checks, () -> {
+            Scene scene = new Scene().make(3, -1, 2);
+            for (int kind = 0; kind < 8; kind++) {
+                if (kind != 3) {
+                    scene.under(kind, 3).make(kind, 1, 2).make(kind, 0, 1);
+                }
+            }
+            return scene;
+        });
+        seven.answers("two of each of seven", 14, desk -> desk.subject(3, 1, 3));
+        seven.answers("one of each of seven", 7, desk -> desk.subject(3, 0, 3));
+        OnScene apart = new OnScene(checks, () -> new Scene().make(3, -1, 1).make(4, -1, 3));
+        apart.answers("none of a kind beside it", 0, desk -> desk.subject(3, 0, 3));
     }
 
-    private static void unknownNumbers(Checks checks) {
-        ServiceDesk desk = new ServiceDesk();
-        desk.make(0, -1);
-        int[] wild = {Integer.MIN_VALUE, -1, 8, 30, Integer.MAX_VALUE};
+    private static void openOnesOfFullKinds(Checks checks) {
+        OnScene full = new OnScene(checks, () -> new Scene().under(0, 3).under(7, 3)
+                .make(3, -1, 30).make(0, 29, 1).make(7, 29, 30));
+        full.answers("31 under the 30th", 31, desk -> desk.subject(3, 29, 3));
+        full.answers("none under the first", 0, desk -> desk.subject(3, 0, 3));
+    }
+
+    /** "Unknown: no such kind". */
+    private static void unknownKind(Checks checks) {
+        int[] wild = {Integer.MIN_VALUE, -1, 8, 9, Integer.MAX_VALUE};
         for (int wrong : wild) {
-            checks.refused(desk, "kind", Checks.UNKNOWN, () -> desk.subject(wrong, 0, 0));
-            checks.refused(desk, "subject", Checks.UNKNOWN, () -> desk.subject(0, wrong, 0));
-            checks.refused(desk, "what", Checks.UNKNOWN, () -> desk.subject(0, 0, wrong));
+            for (int what = 0; what < 4; what++) {
+                int w = what;
+                filled(checks).refuses("kind " + wrong, Checks.UNKNOWN,
+                        desk -> desk.subject(wrong, 0, w));
+            }
         }
-        checks.refused(desk, "subject 1", Checks.UNKNOWN, () -> desk.subject(0, 1, 0));
-        checks.refused(desk, "kind 1", Checks.UNKNOWN, () -> desk.subject(1, 0, 0));
-        checks.refused(desk, "what 4", Checks.UNKNOWN, () -> desk.subject(0, 0, 4));
+        filled(checks).answers("kind 7", 1, desk -> desk.subject(7, 0, 1));
+        filled(checks).refuses("kind 6, without", Checks.UNKNOWN, desk -> desk.subject(6, 0, 1));
+    }
+
+    /** "Unknown: no such .. subject". */
+    private static void unknownSubject(Checks checks) {
+        int[] wild = {Integer.MIN_VALUE, -1, 3, 4, 29, 30, Integer.MAX_VALUE};
+        for (int wrong : wild) {
+            for (int what = 0; what < 4; what++) {
+                int w = what;
+                filled(checks).refuses("subject " + wrong, Checks.UNKNOWN,
+                        desk -> desk.subject(1, wrong, w));
+            }
+        }
+        OnScene full = new OnScene(checks, () -> new Scene().make(0, -1, 30).make(1, -1, 1));
+        full.answers("the 30th", 1, desk -> desk.subject(0, 29, 1));
+        full.refuses("behind the 30th", Checks.UNKNOWN, desk -> desk.subject(0, 30, 1));
+        full.refuses("before the first", Checks.UNKNOWN, desk -> desk.subject(1, -1, 1));
+    }
+
+    /** "Unknown: no such .. what", 0 .. 3. */
+    private static void unknownWhat(Checks checks) {
+        int[] wild = {Integer.MIN_VALUE, -1, 4, 5, Integer.MAX_VALUE};
+        for (int wrong : wild) {
+            filled(checks).refuses("what " + wrong, Checks.UNKNOWN,
+                    desk -> desk.subject(1, 0, wrong));
+        }
+        filled(checks).answers("what 0", 0, desk -> desk.subject(1, 0, 0));
+        filled(checks).answers("what 3", 0, desk -> desk.subject(1, 0, 3));
     }
 }

@@ -1,179 +1,176 @@
-/** Promises 7, 8 and 9: text, textAt and find. */
+/** Promise 7: text. */
 public final class TextTest {
-    private static final int[] WILD = {Integer.MIN_VALUE, -1, 8, 30, Integer.MAX_VALUE};
+    private static final int[] NOT_1_TO_8 = {Integer.MIN_VALUE, -1, 0, 9, 16, Integer.MAX_VALUE};
 
     public static void main(String[] args) {
         Checks checks = new Checks();
-        highestByteFirst(checks);
-        growsToSixteen(checks);
-        textRefusals(checks);
-        textAtRefusals(checks);
-        finds(checks);
-        findsOnlyOpenOnes(checks);
-        fullKinds(checks);
-        findRefusals(checks);
+        theLowestBytesTheHighestOfTheseFirst(checks);
+        unknownKind(checks);
+        unknownSubject(checks);
+        rangeOfN(checks);
+        closedSubject(checks);
+        roomForSixteen(checks);
+        roomAtEachLength(checks);
+        fullTextsOfNeighbours(checks);
+        unknownBeforeRange(checks);
+        rangeBeforeState(checks);
+        rangeBeforeNoRoom(checks);
+        stateBeforeNoRoom(checks);
+        noTurn(checks);
         checks.end();
     }
 
-    private static ServiceDesk deskOf(int subjects) {
-        ServiceDesk desk = new ServiceDesk();
-        for (int i = 0; i < subjects; i++) {
-            desk.make(0, -1);
-        }
-        desk.verb(0, 0, 7, 0, 0);
-        return desk;
+    private static OnScene filled(Checks checks) {
+        return new OnScene(checks, Scene::filled);
     }
 
-    private static void textIs(Checks checks, ServiceDesk desk, int subject, int[] bytes) {
+    private static OnScene withText(Checks checks, int length) {
+        return new OnScene(checks, () -> sceneWithText(length));
+    }
+
+    /** Subject 1 of three has a text of this length: bytes 1, 2, 3, .. */
+    private static Scene sceneWithText(int length) {
+        Scene scene = new Scene().make(0, -1, 3);
+        for (int i = 1; i <= length; i++) {
+            scene.text(0, 1, i, 1);
+        }
+        return scene;
+    }
+
+    private static void textIs(Checks checks, ServiceDesk desk, int subject, int... bytes) {
         for (int i = 0; i < bytes.length; i++) {
             int at = i;
             checks.due("byte " + at, bytes[at], () -> desk.textAt(0, subject, at));
         }
-        int end = bytes.length;
-        checks.due("behind it", -1, () -> desk.textAt(0, subject, end));
+        checks.due("behind it", -1, () -> desk.textAt(0, subject, bytes.length));
     }
 
-    private static void highestByteFirst(Checks checks) {
-        ServiceDesk desk = deskOf(3);
-        checks.due("three", 3, () -> desk.text(0, 1, 0x7F_41_42_43L, 3));
-        textIs(checks, desk, 1, new int[] {0x41, 0x42, 0x43});
-        textIs(checks, desk, 0, new int[0]);
-        textIs(checks, desk, 2, new int[0]);
+    /** "n bytes (.. the lowest n, the highest of these first) more ..: how many it has". */
+    private static void theLowestBytesTheHighestOfTheseFirst(Checks checks) {
+        ServiceDesk desk = sceneWithText(0).desk;
+        checks.due("three of four", 3, () -> desk.text(0, 1, 0x7F_41_42_43L, 3));
+        textIs(checks, desk, 1, 0x41, 0x42, 0x43);
         checks.due("one more", 4, () -> desk.text(0, 1, 0x1_FFL, 1));
-        textIs(checks, desk, 1, new int[] {0x41, 0x42, 0x43, 255});
+        textIs(checks, desk, 1, 0x41, 0x42, 0x43, 255);
+        textIs(checks, desk, 0);
+        textIs(checks, desk, 2);
         checks.due("eight", 8, () -> desk.text(0, 2, 0x80_01_02_03_04_05_06_FFL, 8));
-        textIs(checks, desk, 2, new int[] {0x80, 1, 2, 3, 4, 5, 6, 255});
+        textIs(checks, desk, 2, 0x80, 1, 2, 3, 4, 5, 6, 255);
         checks.due("zeros", 2, () -> desk.text(0, 0, 0, 2));
-        textIs(checks, desk, 0, new int[] {0, 0});
-        checks.due("texts are no turns", 0, () -> desk.count(0));
+        textIs(checks, desk, 0, 0, 0);
+        checks.due("seven of eight", 9, () -> desk.text(0, 0, 0x11_80_00_00_FF_00_7F_01L, 7));
+        textIs(checks, desk, 0, 0, 0, 0x80, 0, 0, 255, 0, 0x7F, 1);
     }
 
-    private static void growsToSixteen(Checks checks) {
-        ServiceDesk desk = deskOf(2);
-        checks.due("8", 8, () -> desk.text(0, 0, -1, 8));
-        checks.due("15", 15, () -> desk.text(0, 0, 1, 7));
-        checks.refused(desk, "17", Checks.NO_ROOM, () -> desk.text(0, 0, 2, 2));
-        checks.due("16", 16, () -> desk.text(0, 0, 3, 1));
+    /** "Unknown: no such kind". */
+    private static void unknownKind(Checks checks) {
+        int[] wild = {Integer.MIN_VALUE, -1, 8, 9, Integer.MAX_VALUE};
+        for (int wrong : wild) {
+            filled(checks).refuses("kind " + wrong, Checks.UNKNOWN,
+                    desk -> desk.text(wrong, 0, 5, 1));
+        }
+        filled(checks).takes("kind 0", 3, desk -> desk.text(0, 0, 5, 1));
+        filled(checks).takes("kind 7", 1, desk -> desk.text(7, 0, 5, 1));
+    }
+
+    /** "Unknown: no such .. subject". */
+    private static void unknownSubject(Checks checks) {
+        int[] wild = {Integer.MIN_VALUE, -1, 3, 4, 29, 30, Integer.MAX_VALUE};
+        for (int wrong : wild) {
+            filled(checks).refuses("subject " + wrong, Checks.UNKNOWN,
+                    desk -> desk.text(1, wrong, 5, 1));
+        }
+        filled(checks).refuses("of a kind without", Checks.UNKNOWN, desk -> desk.text(3, 0, 5, 1));
+        filled(checks).takes("the first", 1, desk -> desk.text(1, 0, 5, 1));
+        OnScene full = new OnScene(checks, () -> new Scene().make(0, -1, 30).make(1, -1, 1));
+        full.takes("the 30th", 1, desk -> desk.text(0, 29, 5, 1));
+        full.refuses("behind the 30th", Checks.UNKNOWN, desk -> desk.text(0, 30, 5, 1));
+        full.refuses("before the first", Checks.UNKNOWN, desk -> desk.text(1, -1, 5, 1));
+    }
+
+    /** "range: n", 1 .. 8. */
+    private static void rangeOfN(Checks checks) {
+        for (int wrong : NOT_1_TO_8) {
+            filled(checks).refuses("n " + wrong, Checks.RANGE, desk -> desk.text(0, 0, 5, wrong));
+        }
         for (int n = 1; n <= 8; n++) {
             int more = n;
-            checks.refused(desk, "more", Checks.NO_ROOM, () -> desk.text(0, 0, 4, more));
+            filled(checks).takes("n " + n, 2 + n, desk -> desk.text(0, 0, 5, more));
         }
-        textIs(checks, desk, 0, new int[] {255, 255, 255, 255, 255, 255, 255, 255,
-            0, 0, 0, 0, 0, 0, 1, 3});
-        textIs(checks, desk, 1, new int[0]);
     }
 
-    private static void textRefusals(Checks checks) {
-        ServiceDesk desk = deskOf(3);
-        desk.text(0, 1, 0, 8);
-        desk.text(0, 1, 0, 8);
-        desk.call(0, 1, 0, 0);
-        desk.call(0, 2, 0, 0);
-        for (int wrong : WILD) {
-            checks.refused(desk, "kind", Checks.UNKNOWN, () -> desk.text(wrong, 0, 0, 1));
-            checks.refused(desk, "subject", Checks.UNKNOWN, () -> desk.text(0, wrong, 0, 1));
-            checks.refused(desk, "unknown before range", Checks.UNKNOWN,
-                    () -> desk.text(wrong, 0, 0, 9));
-        }
-        checks.refused(desk, "subject 3", Checks.UNKNOWN, () -> desk.text(0, 3, 0, 1));
-        int[] far = {Integer.MIN_VALUE, -1, 0, 9, Integer.MAX_VALUE};
-        for (int wrong : far) {
-            checks.refused(desk, "n", Checks.RANGE, () -> desk.text(0, 0, 0, wrong));
-            checks.refused(desk, "range before state", Checks.RANGE,
-                    () -> desk.text(0, 2, 0, wrong));
-            checks.refused(desk, "range before room", Checks.RANGE,
-                    () -> desk.text(0, 1, 0, wrong));
-        }
-        checks.refused(desk, "closed", Checks.STATE, () -> desk.text(0, 2, 0, 1));
-        checks.refused(desk, "state before room", Checks.STATE, () -> desk.text(0, 1, 0, 1));
+    /** "state: it is closed". */
+    private static void closedSubject(Checks checks) {
+        filled(checks).refuses("closed", Checks.STATE, desk -> desk.text(0, 2, 5, 1));
+        filled(checks).refuses("closed, eight", Checks.STATE, desk -> desk.text(1, 2, 5, 8));
+        filled(checks).takes("the one before it", 1, desk -> desk.text(0, 1, 5, 1));
     }
 
-    private static void textAtRefusals(Checks checks) {
-        ServiceDesk desk = deskOf(2);
-        desk.text(0, 1, 65, 1);
-        desk.call(0, 1, 0, 0);
-        checks.due("of a closed one", 65, () -> desk.textAt(0, 1, 0));
-        checks.due("far behind it", -1, () -> desk.textAt(0, 1, 16));
-        checks.due("farther", -1, () -> desk.textAt(0, 1, Integer.MAX_VALUE));
-        for (int wrong : WILD) {
-            checks.refused(desk, "kind", Checks.UNKNOWN, () -> desk.textAt(wrong, 0, 0));
-            checks.refused(desk, "subject", Checks.UNKNOWN, () -> desk.textAt(0, wrong, 0));
-            checks.refused(desk, "unknown before range", Checks.UNKNOWN,
-                    () -> desk.textAt(0, wrong, -1));
+    /** "no room: above 16". */
+    private static void roomForSixteen(Checks checks) {
+        withText(checks, 8).takes("16 by 8", 16, desk -> desk.text(0, 1, 5, 8));
+        withText(checks, 9).refuses("17 by 8", Checks.NO_ROOM, desk -> desk.text(0, 1, 5, 8));
+        withText(checks, 15).takes("16 by 1", 16, desk -> desk.text(0, 1, 5, 1));
+        withText(checks, 15).refuses("17 by 2", Checks.NO_ROOM, desk -> desk.text(0, 1, 5, 2));
+        withText(checks, 16).refuses("17 by 1", Checks.NO_ROOM, desk -> desk.text(0, 1, 5, 1));
+        withText(checks, 16).refuses("24 by 8", Checks.NO_ROOM, desk -> desk.text(0, 1, 5, 8));
+    }
+
+    private static void roomAtEachLength(Checks checks) {
+        for (int length = 0; length <= 16; length++) {
+            for (int n = 1; n <= 8; n++) {
+                int more = n;
+                String want = length + n > 16 ? Checks.NO_ROOM.getName() : "" + (length + n);
+                ServiceDesk desk = sceneWithText(length).desk;
+                checks.same(n + " behind " + length,
+                        Checks.answerOf(() -> desk.text(0, 1, -1, more)), want);
+            }
         }
-        checks.refused(desk, "subject 2", Checks.UNKNOWN, () -> desk.textAt(0, 2, 0));
-        checks.refused(desk, "i", Checks.RANGE, () -> desk.textAt(0, 0, -1));
-        checks.refused(desk, "i", Checks.RANGE, () -> desk.textAt(0, 1, Integer.MIN_VALUE));
     }
 
-    private static void finds(Checks checks) {
-        ServiceDesk desk = deskOf(5);
-        desk.make(1, -1);
-        desk.text(0, 1, 0x4142, 2);
-        desk.text(0, 2, 0x414243, 3);
-        desk.text(0, 3, 0x41, 1);
-        desk.text(0, 3, 0x42, 1);
-        desk.text(0, 4, -1, 8);
-        checks.due("without a text", 0, () -> desk.find(0, 12345, 0));
-        checks.due("the lowest of two", 1, () -> desk.find(0, 0x4142, 2));
-        checks.due("the lowest n bytes alone", 1, () -> desk.find(0, 0x99_4142L, 2));
-        checks.due("three", 2, () -> desk.find(0, 0x414243, 3));
-        checks.due("only a part", -1, () -> desk.find(0, 0x41, 1));
-        checks.due("another first byte", -1, () -> desk.find(0, 0x5142, 2));
-        checks.due("another last byte", -1, () -> desk.find(0, 0x4152, 2));
-        checks.due("its end", -1, () -> desk.find(0, 0x4243, 2));
-        checks.due("the other way round", -1, () -> desk.find(0, 0x4241, 2));
-        checks.due("with a 0 before", -1, () -> desk.find(0, 0x4142, 3));
-        checks.due("eight", 4, () -> desk.find(0, -1, 8));
-        checks.due("seven of eight", -1, () -> desk.find(0, -1, 7));
-        checks.due("not in another kind", -1, () -> desk.find(1, 0x4142, 2));
-        checks.due("another kind's", 0, () -> desk.find(1, 0, 0));
-        desk.text(0, 4, 0, 1);
-        checks.due("nine", -1, () -> desk.find(0, -1, 8));
-    }
-
-    private static void findsOnlyOpenOnes(Checks checks) {
-        ServiceDesk desk = deskOf(3);
-        desk.text(0, 0, 65, 1);
-        desk.text(0, 2, 65, 1);
-        desk.call(0, 0, 0, 0);
-        checks.due("the open one", 2, () -> desk.find(0, 65, 1));
-        desk.call(0, 2, 0, 0);
-        checks.due("none is open", -1, () -> desk.find(0, 65, 1));
-        desk.call(0, 1, 0, 0);
-        checks.due("none is open, no text", -1, () -> desk.find(0, 0, 0));
-    }
-
-    private static void fullKinds(Checks checks) {
-        ServiceDesk desk = deskOf(30);
-        for (int number = 0; number < 30; number++) {
-            desk.make(1, -1);
-            desk.make(7, -1);
-        }
-        desk.text(1, 0, 65, 1);
-        checks.due("the next kind's first is not of this kind", -1, () -> desk.find(0, 65, 1));
-        checks.due("behind the last of all", -1, () -> desk.find(7, 65, 1));
-        desk.text(0, 29, -1, 8);
-        checks.due("full", 16, () -> desk.text(0, 29, -1, 8));
-        checks.due("the next one's text stays", 65, () -> desk.textAt(1, 0, 0));
-        desk.text(7, 29, -1, 8);
-        checks.due("the last of all is full", 16, () -> desk.text(7, 29, 7, 8));
+    private static void fullTextsOfNeighbours(Checks checks) {
+        ServiceDesk desk = new Scene().make(0, -1, 30).make(1, -1, 1).make(7, -1, 30)
+                .text(1, 0, 65, 1).text(0, 29, -1, 8).text(7, 29, -1, 8).desk;
+        checks.due("the last of its kind", 16, () -> desk.text(0, 29, -1, 8));
+        checks.due("the next kind's first stays", 65, () -> desk.textAt(1, 0, 0));
+        checks.due("of one byte", -1, () -> desk.textAt(1, 0, 1));
+        checks.due("the one before it stays", -1, () -> desk.textAt(0, 28, 0));
+        checks.due("the last of all", 16, () -> desk.text(7, 29, 7, 8));
         checks.due("its last byte", 7, () -> desk.textAt(7, 29, 15));
         checks.due("behind it", -1, () -> desk.textAt(7, 29, 16));
     }
 
-    private static void findRefusals(Checks checks) {
-        ServiceDesk desk = deskOf(1);
-        for (int wrong : WILD) {
-            checks.refused(desk, "kind", Checks.UNKNOWN, () -> desk.find(wrong, 0, 0));
-            checks.refused(desk, "unknown before range", Checks.UNKNOWN,
-                    () -> desk.find(wrong, 0, 9));
+    /** "Refusals, in this order". */
+    private static void unknownBeforeRange(Checks checks) {
+        for (int wrong : NOT_1_TO_8) {
+            filled(checks).refuses("kind, n", Checks.UNKNOWN, desk -> desk.text(8, 0, 5, wrong));
+            filled(checks).refuses("subject, n", Checks.UNKNOWN, desk -> desk.text(0, 3, 5, wrong));
         }
-        int[] far = {Integer.MIN_VALUE, -1, 9, Integer.MAX_VALUE};
-        for (int wrong : far) {
-            checks.refused(desk, "n", Checks.RANGE, () -> desk.find(0, 0, wrong));
-            checks.refused(desk, "n without subjects", Checks.RANGE,
-                    () -> desk.find(1, 0, wrong));
+    }
+
+    /** "Refusals, in this order". */
+    private static void rangeBeforeState(Checks checks) {
+        for (int wrong : NOT_1_TO_8) {
+            filled(checks).refuses("closed, n", Checks.RANGE, desk -> desk.text(0, 2, 5, wrong));
         }
+    }
+
+    /** "Refusals, in this order". */
+    private static void rangeBeforeNoRoom(Checks checks) {
+        for (int wrong : NOT_1_TO_8) {
+            filled(checks).refuses("full, n", Checks.RANGE, desk -> desk.text(1, 1, 5, wrong));
+        }
+    }
+
+    /** "Refusals, in this order". */
+    private static void stateBeforeNoRoom(Checks checks) {
+        OnScene closed = new OnScene(checks, () -> sceneWithText(16).close(0, 1));
+        closed.refuses("closed and full", Checks.STATE, desk -> desk.text(0, 1, 5, 1));
+        closed.refuses("closed and full, n", Checks.RANGE, desk -> desk.text(0, 1, 5, 0));
+    }
+
+    private static void noTurn(Checks checks) {
+        withText(checks, 3).takes("turns", desk -> desk.text(0, 1, 5, 1), 0,
+                desk -> desk.count(0));
     }
 }

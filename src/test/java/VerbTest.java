@@ -1,15 +1,24 @@
 /** Promise 4: verb. */
 public final class VerbTest {
+    private static final int[] NOT_0_TO_7 = {Integer.MIN_VALUE, -1, 8, 9, Integer.MAX_VALUE};
+    private static final int[] TOO_FAR = {Integer.MIN_VALUE, -1001, 1001, Integer.MAX_VALUE};
+
     public static void main(String[] args) {
         Checks checks = new Checks();
         eachVerbOfEachKindIsItsOwn(checks);
-        canBeSetAgainAndTakenAway(checks);
-        unknownNumbers(checks);
-        ranges(checks);
-        refusalKeepsTheVerb(checks);
+        setAgain(checks);
+        unknownKind(checks);
+        unknownVerb(checks);
+        unknownMode(checks);
+        modeNone(checks);
+        rangeOfA(checks);
+        rangeOfB(checks);
+        unknownBeforeRange(checks);
+        neitherATurnNorInTheBook(checks);
         checks.end();
     }
 
+    /** "A verb of a kind": 64 of them, the first and the last too. */
     private static void eachVerbOfEachKindIsItsOwn(Checks checks) {
         ServiceDesk desk = new ServiceDesk();
         for (int kind = 0; kind < 8; kind++) {
@@ -27,60 +36,118 @@ public final class VerbTest {
         }
     }
 
-    private static void canBeSetAgainAndTakenAway(Checks checks) {
-        ServiceDesk desk = new ServiceDesk();
-        desk.make(0, -1);
-        int plain = desk.book();
-        desk.verb(0, 0, 1, 5, 6);
-        checks.due("the book does not hold verbs", plain, desk::book);
-        checks.due("verbs are no turns", 0, () -> desk.count(0));
-        checks.due("tell", 6, () -> desk.simulate(0, 0, 0, 0));
-        desk.verb(0, 0, 3, 5, 7);
-        checks.due("read", 17, () -> desk.simulate(0, 0, 0, 10));
-        desk.verb(0, 0, 0, 5, 7);
-        checks.throwing("none", Checks.UNKNOWN, () -> desk.simulate(0, 0, 0, 10));
+    private static void setAgain(Checks checks) {
+        OnScene told = new OnScene(checks, () -> new Scene().make(0, -1, 2).verb(0, 0, 1, 5, 6));
+        told.answers("tell", 11, desk -> desk.simulate(0, 1, 0, 10));
+        told.takes("read instead", desk -> desk.verb(0, 0, 3, 5, 7), 17,
+                desk -> desk.simulate(0, 1, 0, 10));
     }
 
-    private static void unknownNumbers(Checks checks) {
-        ServiceDesk desk = new ServiceDesk();
-        int[] wild = {Integer.MIN_VALUE, -1, 8, Integer.MAX_VALUE};
-        for (int wrong : wild) {
-            checks.refused(desk, "kind " + wrong, Checks.UNKNOWN,
-                    () -> desk.verb(wrong, 0, 1, 0, 0));
-            checks.refused(desk, "verb " + wrong, Checks.UNKNOWN,
-                    () -> desk.verb(0, wrong, 1, 0, 0));
-            checks.refused(desk, "mode " + wrong, Checks.UNKNOWN,
-                    () -> desk.verb(0, 0, wrong, 0, 0));
-            checks.refused(desk, "unknown before range " + wrong, Checks.UNKNOWN,
-                    () -> desk.verb(0, 0, wrong, 1001, 0));
+    /** "Unknown: no such kind". */
+    private static void unknownKind(Checks checks) {
+        OnScene filled = new OnScene(checks, Scene::filled);
+        for (int wrong : NOT_0_TO_7) {
+            filled.refuses("kind " + wrong, Checks.UNKNOWN, desk -> desk.verb(wrong, 1, 1, 1, 1));
         }
-        for (int mode = 0; mode < 8; mode++) {
+        for (int kind = 0; kind < 8; kind += 7) {
+            int k = kind;
+            filled.takes("kind " + k, desk -> desk.verb(k, 1, 1, 1, 44), 44,
+                    desk -> desk.simulate(k, 0, 1, 0));
+        }
+    }
+
+    /** "Unknown: no such .. verb": 0 .. 7. */
+    private static void unknownVerb(Checks checks) {
+        OnScene filled = new OnScene(checks, Scene::filled);
+        for (int wrong : NOT_0_TO_7) {
+            filled.refuses("verb " + wrong, Checks.UNKNOWN, desk -> desk.verb(1, wrong, 1, 1, 1));
+        }
+        for (int verb = 0; verb < 8; verb += 7) {
+            int v = verb;
+            filled.takes("verb " + v, desk -> desk.verb(1, v, 1, 1, 44), 45,
+                    desk -> desk.simulate(1, 1, v, 0));
+        }
+    }
+
+    /** "Unknown: no such .. mode (0 .. 7)". */
+    private static void unknownMode(Checks checks) {
+        OnScene filled = new OnScene(checks, Scene::filled);
+        for (int wrong : NOT_0_TO_7) {
+            filled.refuses("mode " + wrong, Checks.UNKNOWN, desk -> desk.verb(1, 1, wrong, 1, 1));
+            filled.refuses("mode " + wrong + " of a verb without one", Checks.UNKNOWN,
+                    desk -> desk.verb(1, 0, wrong, 1, 1));
+        }
+        long failed = -9_000_000_000_000L;
+        long[] answers = {0, 108, 281, -2689, failed - 5, -1, failed - 11, failed - 12};
+        OnScene bare = new OnScene(checks,
+                () -> new Scene().under(1, 0).make(0, -1, 2).sum(0, 1, -27).make(1, 1, 1));
+        for (int mode = 1; mode < 8; mode++) {
             int m = mode;
-            checks.goes("mode " + m, () -> desk.verb(7, 7, m, 0, 0));
+            bare.takes("mode " + m, desk -> desk.verb(0, 7, m, 100, 8), answers[m],
+                    desk -> desk.simulate(0, 1, 7, 3));
         }
     }
 
-    private static void ranges(Checks checks) {
-        ServiceDesk desk = new ServiceDesk();
-        int[] wild = {Integer.MIN_VALUE, -1001, 1001, Integer.MAX_VALUE};
-        for (int wrong : wild) {
-            checks.refused(desk, "a " + wrong, Checks.RANGE, () -> desk.verb(0, 0, 1, wrong, 0));
-            checks.refused(desk, "b " + wrong, Checks.RANGE, () -> desk.verb(0, 0, 1, 0, wrong));
-            checks.refused(desk, "a of mode 0 " + wrong, Checks.RANGE,
-                    () -> desk.verb(0, 0, 0, wrong, 0));
-        }
-        checks.goes("lowest", () -> desk.verb(0, 0, 1, -1000, -1000));
-        checks.goes("highest", () -> desk.verb(0, 0, 1, 1000, 1000));
+    /** "0 none". */
+    private static void modeNone(Checks checks) {
+        OnScene filled = new OnScene(checks, Scene::filled);
+        ServiceDesk desk = Scene.filled().desk;
+        checks.goes("mode 0", () -> desk.verb(1, 1, 0, 1, 1));
+        checks.throwing("has no mode any more", Checks.UNKNOWN, () -> desk.simulate(1, 1, 1, 0));
+        checks.due("the next verb has", 25, () -> desk.simulate(1, 1, 2, 9));
+        filled.answers("before it had one", 1, d -> d.simulate(1, 1, 1, 0));
     }
 
-    private static void refusalKeepsTheVerb(Checks checks) {
-        ServiceDesk desk = new ServiceDesk();
-        desk.make(0, -1);
-        desk.make(0, -1);
-        desk.verb(0, 0, 1, 30, 4);
-        checks.throwing("mode", Checks.UNKNOWN, () -> desk.verb(0, 0, 8, 1, 1));
-        checks.throwing("a", Checks.RANGE, () -> desk.verb(0, 0, 3, 1001, 1));
-        checks.throwing("b", Checks.RANGE, () -> desk.verb(0, 0, 3, 1, -1001));
-        checks.due("as before", 34, () -> desk.simulate(0, 1, 0, 9));
+    /** "range: a", which is -1,000 .. 1,000. */
+    private static void rangeOfA(Checks checks) {
+        OnScene filled = new OnScene(checks, Scene::filled);
+        for (int wrong : TOO_FAR) {
+            for (int mode = 0; mode < 8; mode++) {
+                int m = mode;
+                filled.refuses("a " + wrong + " of mode " + m, Checks.RANGE,
+                        desk -> desk.verb(1, 1, m, wrong, 0));
+            }
+        }
+        filled.takes("lowest", desk -> desk.verb(1, 1, 1, -1000, 0), -1000,
+                desk -> desk.simulate(1, 1, 1, 0));
+        filled.takes("highest", desk -> desk.verb(1, 1, 1, 1000, 0), 1000,
+                desk -> desk.simulate(1, 1, 1, 0));
+    }
+
+    /** "range: .. b", which is -1,000 .. 1,000. */
+    private static void rangeOfB(Checks checks) {
+        OnScene filled = new OnScene(checks, Scene::filled);
+        for (int wrong : TOO_FAR) {
+            for (int mode = 0; mode < 8; mode++) {
+                int m = mode;
+                filled.refuses("b " + wrong + " of mode " + m, Checks.RANGE,
+                        desk -> desk.verb(1, 1, m, 0, wrong));
+            }
+        }
+        filled.takes("lowest", desk -> desk.verb(1, 1, 1, 0, -1000), -1000,
+                desk -> desk.simulate(1, 1, 1, 0));
+        filled.takes("highest", desk -> desk.verb(1, 1, 1, 0, 1000), 1000,
+                desk -> desk.simulate(1, 1, 1, 0));
+    }
+
+    /** "Refusals, in this order". */
+    private static void unknownBeforeRange(Checks checks) {
+        OnScene filled = new OnScene(checks, Scene::filled);
+        for (int wrong : TOO_FAR) {
+            filled.refuses("kind, a", Checks.UNKNOWN, desk -> desk.verb(8, 1, 1, wrong, 0));
+            filled.refuses("kind, b", Checks.UNKNOWN, desk -> desk.verb(-1, 1, 1, 0, wrong));
+            filled.refuses("verb, a", Checks.UNKNOWN, desk -> desk.verb(1, 8, 1, wrong, 0));
+            filled.refuses("verb, b", Checks.UNKNOWN, desk -> desk.verb(1, -1, 1, 0, wrong));
+            filled.refuses("mode, a", Checks.UNKNOWN, desk -> desk.verb(1, 1, 8, wrong, 0));
+            filled.refuses("mode, b", Checks.UNKNOWN, desk -> desk.verb(1, 1, -1, 0, wrong));
+        }
+    }
+
+    private static void neitherATurnNorInTheBook(Checks checks) {
+        OnScene filled = new OnScene(checks, Scene::filled);
+        int book = Scene.filled().desk.book();
+        int turns = Scene.filled().desk.count(0);
+        filled.takes("book", desk -> desk.verb(3, 3, 3, 3, 3), book, ServiceDesk::book);
+        filled.takes("turns", desk -> desk.verb(3, 3, 3, 3, 3), turns, desk -> desk.count(0));
     }
 }

@@ -104,7 +104,7 @@ public final class BookTest {
     }
 
     private static void askingChangesNothing(Checks checks) {
-        OnScene filled = new OnScene(checks, Scene::filled);
+        OnScene filled = OnScene.filled(checks);
         int book = Scene.filled().desk.book();
         filled.answers("asked once", book, ServiceDesk::book);
         filled.answers("asked twice", book, desk -> {

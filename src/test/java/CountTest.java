@@ -12,10 +12,6 @@ public final class CountTest {
         checks.end();
     }
 
-    private static OnScene filled(Checks checks) {
-        return new OnScene(checks, Scene::filled);
-    }
-
     private static void nothingAtFirst(Checks checks) {
         for (int what = 0; what < 4; what++) {
             int w = what;
@@ -25,14 +21,15 @@ public final class CountTest {
 
     /** "0 turns": of calls alone, those that are refused or fail too. */
     private static void turns(Checks checks) {
-        filled(checks).answers("turns", 11, desk -> desk.count(0));
-        filled(checks).takes("a fine one", desk -> desk.call(1, 0, 1, 0), 12,
+        OnScene filled = OnScene.filled(checks);
+        filled.answers("turns", 11, desk -> desk.count(0));
+        filled.takes("a fine one", desk -> desk.call(1, 0, 1, 0), 12,
                 desk -> desk.count(0));
-        filled(checks).takes("a failure", desk -> desk.call(1, 0, 4, 0), 12,
+        filled.takes("a failure", desk -> desk.call(1, 0, 4, 0), 12,
                 desk -> desk.count(0));
         new OnScene(checks, () -> Scene.filled().call(1, 0, 0, 0).call(1, 0, 1, 1_000_001)
                 .call(0, 2, 1, 0)).answers("three refusals", 14, desk -> desk.count(0));
-        filled(checks).takes("others are none", desk -> {
+        filled.takes("others are none", desk -> {
             desk.under(4, 3);
             desk.make(0, -1);
             desk.verb(0, 0, 1, 1, 1);
@@ -53,17 +50,19 @@ public final class CountTest {
 
     /** "1 rows". */
     private static void rows(Checks checks) {
-        filled(checks).answers("rows", 2, desk -> desk.count(1));
-        filled(checks).takes("a failure", desk -> desk.call(1, 0, 4, 0), 3, desk -> desk.count(1));
-        filled(checks).takes("a fine one", desk -> desk.call(1, 0, 1, 0), 2,
+        OnScene filled = OnScene.filled(checks);
+        filled.answers("rows", 2, desk -> desk.count(1));
+        filled.takes("a failure", desk -> desk.call(1, 0, 4, 0), 3, desk -> desk.count(1));
+        filled.takes("a fine one", desk -> desk.call(1, 0, 1, 0), 2,
                 desk -> desk.count(1));
     }
 
     /** "2 subjects": of all kinds, closed ones too. */
     private static void subjects(Checks checks) {
-        filled(checks).answers("subjects", 8, desk -> desk.count(2));
-        filled(checks).takes("one more", desk -> desk.make(5, -1), 9, desk -> desk.count(2));
-        filled(checks).takes("one closed", desk -> desk.call(2, 0, 7, 0), 8,
+        OnScene filled = OnScene.filled(checks);
+        filled.answers("subjects", 8, desk -> desk.count(2));
+        filled.takes("one more", desk -> desk.make(5, -1), 9, desk -> desk.count(2));
+        filled.takes("one closed", desk -> desk.call(2, 0, 7, 0), 8,
                 desk -> desk.count(2));
         ServiceDesk full = new ServiceDesk();
         for (int kind = 0; kind < 8; kind++) {
@@ -77,9 +76,10 @@ public final class CountTest {
 
     /** "3 open ones". */
     private static void openOnes(Checks checks) {
-        filled(checks).answers("open ones", 6, desk -> desk.count(3));
-        filled(checks).takes("one more", desk -> desk.make(5, -1), 7, desk -> desk.count(3));
-        filled(checks).takes("one closed", desk -> desk.call(2, 0, 7, 0), 5,
+        OnScene filled = OnScene.filled(checks);
+        filled.answers("open ones", 6, desk -> desk.count(3));
+        filled.takes("one more", desk -> desk.make(5, -1), 7, desk -> desk.count(3));
+        filled.takes("one closed", desk -> desk.call(2, 0, 7, 0), 5,
                 desk -> desk.count(3));
         new OnScene(checks, () -> new Scene().make(0, -1, 1).make(7, -1, 1).close(0, 0)
                 .close(7, 0)).answers("none is left", 0, desk -> desk.count(3));
@@ -89,7 +89,8 @@ public final class CountTest {
     private static void unknownWhat(Checks checks) {
         int[] wild = {Integer.MIN_VALUE, -1, 4, 5, Integer.MAX_VALUE};
         for (int wrong : wild) {
-            filled(checks).refuses("what " + wrong, Checks.UNKNOWN, desk -> desk.count(wrong));
+            OnScene.filled(checks).refuses("what " + wrong, Checks.UNKNOWN,
+                    desk -> desk.count(wrong));
         }
     }
 }

@@ -116,7 +116,7 @@ public final class FindTest {
     /** "Unknown: no such kind". */
     private static void unknownKind(Checks checks) {
         int[] wild = {Integer.MIN_VALUE, -1, 8, 9, Integer.MAX_VALUE};
-        OnScene filled = new OnScene(checks, Scene::filled);
+        OnScene filled = OnScene.filled(checks);
         for (int wrong : wild) {
             filled.refuses("kind " + wrong, Checks.UNKNOWN, desk -> desk.find(wrong, 0, 0));
             filled.refuses("kind " + wrong, Checks.UNKNOWN, desk -> desk.find(wrong, 0, 8));
@@ -127,7 +127,7 @@ public final class FindTest {
 
     /** "range: n", 0 .. 8. */
     private static void rangeOfN(Checks checks) {
-        OnScene filled = new OnScene(checks, Scene::filled);
+        OnScene filled = OnScene.filled(checks);
         for (int wrong : NOT_0_TO_8) {
             filled.refuses("n " + wrong, Checks.RANGE, desk -> desk.find(0, 0, wrong));
             filled.refuses("n " + wrong + " without subjects", Checks.RANGE,
@@ -139,7 +139,7 @@ public final class FindTest {
 
     /** "Refusals, in this order". */
     private static void unknownBeforeRange(Checks checks) {
-        OnScene filled = new OnScene(checks, Scene::filled);
+        OnScene filled = OnScene.filled(checks);
         for (int wrong : NOT_0_TO_8) {
             filled.refuses("kind 8", Checks.UNKNOWN, desk -> desk.find(8, 0, wrong));
             filled.refuses("kind -1", Checks.UNKNOWN, desk -> desk.find(-1, 0, wrong));

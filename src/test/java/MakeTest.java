@@ -53,7 +53,7 @@ public final class MakeTest {
 
     /** "Unknown: no such kind". */
     private static void unknownKind(Checks checks) {
-        OnScene filled = new OnScene(checks, Scene::filled);
+        OnScene filled = OnScene.filled(checks);
         for (int wrong : NO_KINDS) {
             filled.refuses("kind " + wrong, Checks.UNKNOWN, desk -> desk.make(wrong, -1));
             filled.refuses("kind " + wrong + " under 0", Checks.UNKNOWN,
@@ -63,7 +63,7 @@ public final class MakeTest {
 
     /** "(-1 when that is none)": any other is no such subject to be under. */
     private static void underNone(Checks checks) {
-        OnScene filled = new OnScene(checks, Scene::filled);
+        OnScene filled = OnScene.filled(checks);
         filled.takes("-1", desk -> desk.make(0, -1), -1, desk -> desk.subject(0, 3, 0));
         int[] wild = {Integer.MIN_VALUE, -2, 0, 1, 2, 3, 30, Integer.MAX_VALUE};
         for (int wrong : wild) {

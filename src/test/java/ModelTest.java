@@ -7,7 +7,8 @@ public final class ModelTest {
 
     private static final int[] WILD = {Integer.MIN_VALUE, -1_000_001, -1001, -2, -1, 8, 9, 29, 30,
         31, 80, 1001, 1_000_001, 1_000_000_000, Integer.MAX_VALUE};
-    private static final int[] ARGUMENTS = {0, 1, -1, 2, 3, -7, 500, 999_999, 1_000_000, -1_000_000};
+    private static final int[] ARGUMENTS =
+            {0, 1, -1, 2, 3, -7, 500, 999_999, 1_000_000, -1_000_000};
     private static final int[] FACTORS = {0, 1, -1, 2, 7, 9, -3, 1000, -1000};
     private static final long[] TEXTS = {0, 65, 0x4142, -1, 0x8000_0000_0000_00FFL};
 

@@ -22,6 +22,10 @@ final class OnScene {
         this.making = making;
     }
 
+    static OnScene filled(Checks checks) {
+        return new OnScene(checks, Scene::filled);
+    }
+
     /** The call is taken and answers this. */
     void takes(String what, long want, Question question) {
         Scene scene = making.make();

@@ -2,11 +2,6 @@ import java.util.Arrays;
 
 /** A desk that is set up step by step, with what no call tells again: kinds' places, the clock. */
 final class Scene {
-    /** Takes what a call of a scene is refused with: the scene is set up to hold its row. */
-    private static void callInVain(Checks.Call call) {
-        Checks.answerOf(call);
-    }
-
     final ServiceDesk desk = new ServiceDesk();
     final int[] aboves = new int[8];
     int clock;
@@ -57,8 +52,9 @@ final class Scene {
         return this;
     }
 
+    /** Goes on when the call is refused, as a scene may be set up to hold its row. */
     Scene call(int kind, int subject, int verb, int argument) {
-        callInVain(() -> desk.call(kind, subject, verb, argument));
+        Checks.answerOf(() -> desk.call(kind, subject, verb, argument));
         return this;
     }
 

@@ -21,10 +21,6 @@ public final class SimulateTest {
         checks.end();
     }
 
-    private static OnScene filled(Checks checks) {
-        return new OnScene(checks, Scene::filled);
-    }
-
     private static void simulates(OnScene scene, long want, int[] c) {
         String what = "simulate " + c[0] + " " + c[1] + " " + c[2] + " " + c[3];
         scene.answers(what, want, desk -> desk.simulate(c[0], c[1], c[2], c[3]));
@@ -37,26 +33,28 @@ public final class SimulateTest {
 
     private static void refuses(Checks checks, Class<? extends RuntimeException> why, int[] c) {
         String what = "simulate " + c[0] + " " + c[1] + " " + c[2] + " " + c[3];
-        filled(checks).refuses(what, why, desk -> desk.simulate(c[0], c[1], c[2], c[3]));
+        OnScene.filled(checks).refuses(what, why, desk -> desk.simulate(c[0], c[1], c[2], c[3]));
     }
 
     /** "SIMULATING tells what a call would answer .., without a turn, rows or changes." */
     private static void answersOfEachMode(Checks checks) {
-        simulates(filled(checks), 1, new int[] {1, 1, 1, 9});
-        simulates(filled(checks), -4, new int[] {1, 0, 2, 9});
-        simulates(filled(checks), -80, new int[] {1, 0, 3, 9});
-        simulates(filled(checks), -5, new int[] {1, 0, 5, 9});
-        simulates(filled(checks), 16, new int[] {1, 0, 6, 9});
-        simulates(filled(checks), 1, new int[] {1, 0, 7, 9});
+        OnScene filled = OnScene.filled(checks);
+        simulates(filled, 1, new int[] {1, 1, 1, 9});
+        simulates(filled, -4, new int[] {1, 0, 2, 9});
+        simulates(filled, -80, new int[] {1, 0, 3, 9});
+        simulates(filled, -5, new int[] {1, 0, 5, 9});
+        simulates(filled, 16, new int[] {1, 0, 6, 9});
+        simulates(filled, 1, new int[] {1, 0, 7, 9});
     }
 
     /** "A failure": answered, not told. */
     private static void failures(Checks checks) {
-        simulates(filled(checks), FAILED - 4, new int[] {1, 0, 4, 9});
-        simulates(filled(checks), FAILED - 10, new int[] {1, 0, 5, 0});
-        simulates(filled(checks), FAILED - 11, new int[] {0, 0, 6, 9});
-        simulates(filled(checks), FAILED - 12, new int[] {0, 0, 7, 9});
-        simulates(filled(checks), FAILED - 12, new int[] {1, 1, 7, 9});
+        OnScene filled = OnScene.filled(checks);
+        simulates(filled, FAILED - 4, new int[] {1, 0, 4, 9});
+        simulates(filled, FAILED - 10, new int[] {1, 0, 5, 0});
+        simulates(filled, FAILED - 11, new int[] {0, 0, 6, 9});
+        simulates(filled, FAILED - 12, new int[] {0, 0, 7, 9});
+        simulates(filled, FAILED - 12, new int[] {1, 1, 7, 9});
     }
 
     /** "of kind 9 when a sum would be above 1,000,000,000 or below its opposite". */
@@ -100,11 +98,12 @@ public final class SimulateTest {
 
     /** "Likewise": no such kind. */
     private static void unknownKind(Checks checks) {
+        OnScene filled = OnScene.filled(checks);
         for (int wrong : NOT_0_TO_7) {
             refuses(checks, Checks.UNKNOWN, new int[] {wrong, 0, 1, 0});
         }
-        simulates(filled(checks), -2, new int[] {0, 0, 1, 0});
-        simulates(filled(checks), -2, new int[] {7, 0, 1, 0});
+        simulates(filled, -2, new int[] {0, 0, 1, 0});
+        simulates(filled, -2, new int[] {7, 0, 1, 0});
     }
 
     /** "Likewise": no such subject. */
@@ -134,13 +133,14 @@ public final class SimulateTest {
 
     /** "Likewise": the argument is -1,000,000 .. 1,000,000. */
     private static void argumentOutOfRange(Checks checks) {
+        OnScene filled = OnScene.filled(checks);
         for (int verb = 1; verb < 8; verb++) {
             for (int wrong : TOO_FAR) {
                 refuses(checks, Checks.RANGE, new int[] {1, 0, verb, wrong});
             }
         }
-        simulates(filled(checks), -1_000_000 - 89, new int[] {1, 0, 3, -1_000_000});
-        simulates(filled(checks), 1_000_000 - 89, new int[] {1, 0, 3, 1_000_000});
+        simulates(filled, -1_000_000 - 89, new int[] {1, 0, 3, -1_000_000});
+        simulates(filled, 1_000_000 - 89, new int[] {1, 0, 3, 1_000_000});
     }
 
     /** "Likewise": the subject is closed. */

@@ -14,16 +14,13 @@ public final class SubjectTest {
         checks.end();
     }
 
-    private static OnScene filled(Checks checks) {
-        return new OnScene(checks, Scene::filled);
-    }
-
     /** "0 the one it is under (-1)". */
     private static void theOneItIsUnder(Checks checks) {
-        filled(checks).answers("under none", -1, desk -> desk.subject(0, 1, 0));
-        filled(checks).answers("under the first", 0, desk -> desk.subject(1, 1, 0));
-        filled(checks).answers("under another", 1, desk -> desk.subject(2, 0, 0));
-        filled(checks).answers("a closed one", 0, desk -> desk.subject(1, 2, 0));
+        OnScene filled = OnScene.filled(checks);
+        filled.answers("under none", -1, desk -> desk.subject(0, 1, 0));
+        filled.answers("under the first", 0, desk -> desk.subject(1, 1, 0));
+        filled.answers("under another", 1, desk -> desk.subject(2, 0, 0));
+        filled.answers("a closed one", 0, desk -> desk.subject(1, 2, 0));
         OnScene last = new OnScene(checks,
                 () -> new Scene().under(7, 6).make(6, -1, 30).make(7, 29, 1));
         last.answers("under the 30th", 29, desk -> desk.subject(7, 0, 0));
@@ -31,17 +28,19 @@ public final class SubjectTest {
 
     /** "1 whether it is open (1, 0)". */
     private static void whetherItIsOpen(Checks checks) {
-        filled(checks).answers("open", 1, desk -> desk.subject(0, 1, 1));
-        filled(checks).answers("closed", 0, desk -> desk.subject(0, 2, 1));
+        OnScene filled = OnScene.filled(checks);
+        filled.answers("open", 1, desk -> desk.subject(0, 1, 1));
+        filled.answers("closed", 0, desk -> desk.subject(0, 2, 1));
     }
 
     /** "2 its sum". */
     private static void itsSum(Checks checks) {
-        filled(checks).answers("at first", 0, desk -> desk.subject(2, 0, 2));
-        filled(checks).answers("above 0", 148, desk -> desk.subject(0, 1, 2));
-        filled(checks).answers("below 0", -29, desk -> desk.subject(1, 0, 2));
-        filled(checks).answers("passed", 7, desk -> desk.subject(0, 0, 2));
-        filled(checks).answers("a closed one's", 5, desk -> desk.subject(1, 2, 2));
+        OnScene filled = OnScene.filled(checks);
+        filled.answers("at first", 0, desk -> desk.subject(2, 0, 2));
+        filled.answers("above 0", 148, desk -> desk.subject(0, 1, 2));
+        filled.answers("below 0", -29, desk -> desk.subject(1, 0, 2));
+        filled.answers("passed", 7, desk -> desk.subject(0, 0, 2));
+        filled.answers("a closed one's", 5, desk -> desk.subject(1, 2, 2));
         int[] ends = {1_000_000_000, -1_000_000_000};
         for (int end : ends) {
             new OnScene(checks, () -> new Scene().make(0, -1, 1).sum(0, 0, end))
@@ -51,12 +50,13 @@ public final class SubjectTest {
 
     /** "3 open ones right under it": not those that are closed, nor those farther below. */
     private static void openOnesRightUnder(Checks checks) {
-        filled(checks).answers("two of one kind, one of another", 3,
+        OnScene filled = OnScene.filled(checks);
+        filled.answers("two of one kind, one of another", 3,
                 desk -> desk.subject(0, 0, 3));
-        filled(checks).answers("none", 0, desk -> desk.subject(0, 1, 3));
-        filled(checks).answers("of a closed one", 0, desk -> desk.subject(0, 2, 3));
-        filled(checks).answers("in the middle", 1, desk -> desk.subject(1, 1, 3));
-        filled(checks).answers("at the end", 0, desk -> desk.subject(2, 0, 3));
+        filled.answers("none", 0, desk -> desk.subject(0, 1, 3));
+        filled.answers("of a closed one", 0, desk -> desk.subject(0, 2, 3));
+        filled.answers("in the middle", 1, desk -> desk.subject(1, 1, 3));
+        filled.answers("at the end", 0, desk -> desk.subject(2, 0, 3));
         OnScene closed = new OnScene(checks, () -> Scene.filled().close(1, 0).close(7, 0));
         closed.answers("one is left", 1, desk -> desk.subject(0, 0, 3));
     }
@@ -87,16 +87,17 @@ public final class SubjectTest {
 
     /** "Unknown: no such kind". */
     private static void unknownKind(Checks checks) {
+        OnScene filled = OnScene.filled(checks);
         int[] wild = {Integer.MIN_VALUE, -1, 8, 9, Integer.MAX_VALUE};
         for (int wrong : wild) {
             for (int what = 0; what < 4; what++) {
                 int w = what;
-                filled(checks).refuses("kind " + wrong, Checks.UNKNOWN,
+                filled.refuses("kind " + wrong, Checks.UNKNOWN,
                         desk -> desk.subject(wrong, 0, w));
             }
         }
-        filled(checks).answers("kind 7", 1, desk -> desk.subject(7, 0, 1));
-        filled(checks).refuses("kind 6, without", Checks.UNKNOWN, desk -> desk.subject(6, 0, 1));
+        filled.answers("kind 7", 1, desk -> desk.subject(7, 0, 1));
+        filled.refuses("kind 6, without", Checks.UNKNOWN, desk -> desk.subject(6, 0, 1));
     }
 
     /** "Unknown: no such .. subject". */
@@ -105,7 +106,7 @@ public final class SubjectTest {
         for (int wrong : wild) {
             for (int what = 0; what < 4; what++) {
                 int w = what;
-                filled(checks).refuses("subject " + wrong, Checks.UNKNOWN,
+                OnScene.filled(checks).refuses("subject " + wrong, Checks.UNKNOWN,
                         desk -> desk.subject(1, wrong, w));
             }
         }
@@ -117,12 +118,13 @@ public final class SubjectTest {
 
     /** "Unknown: no such .. what", 0 .. 3. */
     private static void unknownWhat(Checks checks) {
+        OnScene filled = OnScene.filled(checks);
         int[] wild = {Integer.MIN_VALUE, -1, 4, 5, Integer.MAX_VALUE};
         for (int wrong : wild) {
-            filled(checks).refuses("what " + wrong, Checks.UNKNOWN,
+            filled.refuses("what " + wrong, Checks.UNKNOWN,
                     desk -> desk.subject(1, 0, wrong));
         }
-        filled(checks).answers("what 0", 0, desk -> desk.subject(1, 0, 0));
-        filled(checks).answers("what 3", 0, desk -> desk.subject(1, 0, 3));
+        filled.answers("what 0", 0, desk -> desk.subject(1, 0, 0));
+        filled.answers("what 3", 0, desk -> desk.subject(1, 0, 3));
     }
 }

@@ -20,10 +20,6 @@ public final class TextTest {
         checks.end();
     }
 
-    private static OnScene filled(Checks checks) {
-        return new OnScene(checks, Scene::filled);
-    }
-
     private static OnScene withText(Checks checks, int length) {
         return new OnScene(checks, () -> sceneWithText(length));
     }
@@ -64,24 +60,26 @@ public final class TextTest {
 
     /** "Unknown: no such kind". */
     private static void unknownKind(Checks checks) {
+        OnScene filled = OnScene.filled(checks);
         int[] wild = {Integer.MIN_VALUE, -1, 8, 9, Integer.MAX_VALUE};
         for (int wrong : wild) {
-            filled(checks).refuses("kind " + wrong, Checks.UNKNOWN,
+            filled.refuses("kind " + wrong, Checks.UNKNOWN,
                     desk -> desk.text(wrong, 0, 5, 1));
         }
-        filled(checks).takes("kind 0", 3, desk -> desk.text(0, 0, 5, 1));
-        filled(checks).takes("kind 7", 1, desk -> desk.text(7, 0, 5, 1));
+        filled.takes("kind 0", 3, desk -> desk.text(0, 0, 5, 1));
+        filled.takes("kind 7", 1, desk -> desk.text(7, 0, 5, 1));
     }
 
     /** "Unknown: no such .. subject". */
     private static void unknownSubject(Checks checks) {
+        OnScene filled = OnScene.filled(checks);
         int[] wild = {Integer.MIN_VALUE, -1, 3, 4, 29, 30, Integer.MAX_VALUE};
         for (int wrong : wild) {
-            filled(checks).refuses("subject " + wrong, Checks.UNKNOWN,
+            filled.refuses("subject " + wrong, Checks.UNKNOWN,
                     desk -> desk.text(1, wrong, 5, 1));
         }
-        filled(checks).refuses("of a kind without", Checks.UNKNOWN, desk -> desk.text(3, 0, 5, 1));
-        filled(checks).takes("the first", 1, desk -> desk.text(1, 0, 5, 1));
+        filled.refuses("of a kind without", Checks.UNKNOWN, desk -> desk.text(3, 0, 5, 1));
+        filled.takes("the first", 1, desk -> desk.text(1, 0, 5, 1));
         OnScene full = new OnScene(checks, () -> new Scene().make(0, -1, 30).make(1, -1, 1));
         full.takes("the 30th", 1, desk -> desk.text(0, 29, 5, 1));
         full.refuses("behind the 30th", Checks.UNKNOWN, desk -> desk.text(0, 30, 5, 1));
@@ -90,20 +88,22 @@ public final class TextTest {
 
     /** "range: n", 1 .. 8. */
     private static void rangeOfN(Checks checks) {
+        OnScene filled = OnScene.filled(checks);
         for (int wrong : NOT_1_TO_8) {
-            filled(checks).refuses("n " + wrong, Checks.RANGE, desk -> desk.text(0, 0, 5, wrong));
+            filled.refuses("n " + wrong, Checks.RANGE, desk -> desk.text(0, 0, 5, wrong));
         }
         for (int n = 1; n <= 8; n++) {
             int more = n;
-            filled(checks).takes("n " + n, 2 + n, desk -> desk.text(0, 0, 5, more));
+            filled.takes("n " + n, 2 + n, desk -> desk.text(0, 0, 5, more));
         }
     }
 
     /** "state: it is closed". */
     private static void closedSubject(Checks checks) {
-        filled(checks).refuses("closed", Checks.STATE, desk -> desk.text(0, 2, 5, 1));
-        filled(checks).refuses("closed, eight", Checks.STATE, desk -> desk.text(1, 2, 5, 8));
-        filled(checks).takes("the one before it", 1, desk -> desk.text(0, 1, 5, 1));
+        OnScene filled = OnScene.filled(checks);
+        filled.refuses("closed", Checks.STATE, desk -> desk.text(0, 2, 5, 1));
+        filled.refuses("closed, eight", Checks.STATE, desk -> desk.text(1, 2, 5, 8));
+        filled.takes("the one before it", 1, desk -> desk.text(0, 1, 5, 1));
     }
 
     /** "no room: above 16". */
@@ -142,23 +142,26 @@ public final class TextTest {
 
     /** "Refusals, in this order". */
     private static void unknownBeforeRange(Checks checks) {
+        OnScene filled = OnScene.filled(checks);
         for (int wrong : NOT_1_TO_8) {
-            filled(checks).refuses("kind, n", Checks.UNKNOWN, desk -> desk.text(8, 0, 5, wrong));
-            filled(checks).refuses("subject, n", Checks.UNKNOWN, desk -> desk.text(0, 3, 5, wrong));
+            filled.refuses("kind, n", Checks.UNKNOWN, desk -> desk.text(8, 0, 5, wrong));
+            filled.refuses("subject, n", Checks.UNKNOWN, desk -> desk.text(0, 3, 5, wrong));
         }
     }
 
     /** "Refusals, in this order". */
     private static void rangeBeforeState(Checks checks) {
         for (int wrong : NOT_1_TO_8) {
-            filled(checks).refuses("closed, n", Checks.RANGE, desk -> desk.text(0, 2, 5, wrong));
+            OnScene.filled(checks).refuses("closed, n", Checks.RANGE,
+                    desk -> desk.text(0, 2, 5, wrong));
         }
     }
 
     /** "Refusals, in this order". */
     private static void rangeBeforeNoRoom(Checks checks) {
         for (int wrong : NOT_1_TO_8) {
-            filled(checks).refuses("full, n", Checks.RANGE, desk -> desk.text(1, 1, 5, wrong));
+            OnScene.filled(checks).refuses("full, n", Checks.RANGE,
+                    desk -> desk.text(1, 1, 5, wrong));
         }
     }
 

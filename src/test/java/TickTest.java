@@ -9,10 +9,6 @@ public final class TickTest {
         checks.end();
     }
 
-    private static OnScene filled(Checks checks) {
-        return new OnScene(checks, Scene::filled);
-    }
-
     /** "Time goes on ..: the clock." */
     private static void timeGoesOn(Checks checks) {
         ServiceDesk desk = new ServiceDesk();
@@ -27,15 +23,16 @@ public final class TickTest {
 
     /** "(1 .. 100,000) .. Range: it is not so". */
     private static void rangeOfN(Checks checks) {
+        OnScene filled = OnScene.filled(checks);
         int[] wild = {Integer.MIN_VALUE, -100_000, -1, 0, 100_001, 1_000_000_000,
             Integer.MAX_VALUE};
         for (int wrong : wild) {
-            filled(checks).refuses("tick " + wrong, Checks.RANGE, desk -> desk.tick(wrong));
+            filled.refuses("tick " + wrong, Checks.RANGE, desk -> desk.tick(wrong));
             new OnScene(checks, Scene::new).refuses("first tick " + wrong, Checks.RANGE,
                     desk -> desk.tick(wrong));
         }
-        filled(checks).takes("lowest", 18, desk -> desk.tick(1));
-        filled(checks).takes("highest", 100_017, desk -> desk.tick(100_000));
+        filled.takes("lowest", 18, desk -> desk.tick(1));
+        filled.takes("highest", 100_017, desk -> desk.tick(100_000));
     }
 
     /**
@@ -61,6 +58,6 @@ public final class TickTest {
 
     private static void noTurn(Checks checks) {
         int turns = Scene.filled().desk.count(0);
-        filled(checks).takes("turns", desk -> desk.tick(5), turns, desk -> desk.count(0));
+        OnScene.filled(checks).takes("turns", desk -> desk.tick(5), turns, desk -> desk.count(0));
     }
 }

@@ -55,7 +55,7 @@ public final class UnderTest {
 
     /** "Unknown: no such kinds": kinds are 0 .. 7. */
     private static void unknownKind(Checks checks) {
-        OnScene filled = new OnScene(checks, Scene::filled);
+        OnScene filled = OnScene.filled(checks);
         for (int wrong : NO_KINDS) {
             filled.refuses("kind " + wrong, Checks.UNKNOWN, desk -> desk.under(wrong, 3));
             filled.refuses("none " + wrong, Checks.UNKNOWN, desk -> desk.under(wrong, -1));
@@ -66,7 +66,7 @@ public final class UnderTest {
 
     /** "Unknown: no such kinds": the one above is 0 .. 7, or -1. */
     private static void unknownKindAbove(Checks checks) {
-        OnScene filled = new OnScene(checks, Scene::filled);
+        OnScene filled = OnScene.filled(checks);
         for (int wrong : NO_KINDS) {
             filled.refuses("above " + wrong, Checks.UNKNOWN, desk -> desk.under(3, wrong));
         }
@@ -157,7 +157,7 @@ public final class UnderTest {
 
     /** "Refusals, in this order". */
     private static void unknownBeforeState(Checks checks) {
-        OnScene filled = new OnScene(checks, Scene::filled);
+        OnScene filled = OnScene.filled(checks);
         filled.refuses("above 8 of one with subjects", Checks.UNKNOWN, desk -> desk.under(0, 8));
         filled.refuses("above -2 of one with subjects", Checks.UNKNOWN, desk -> desk.under(0, -2));
         filled.refuses("8 under itself", Checks.UNKNOWN, desk -> desk.under(8, 8));

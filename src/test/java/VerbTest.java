@@ -45,7 +45,7 @@ public final class VerbTest {
 
     /** "Unknown: no such kind". */
     private static void unknownKind(Checks checks) {
-        OnScene filled = new OnScene(checks, Scene::filled);
+        OnScene filled = OnScene.filled(checks);
         for (int wrong : NOT_0_TO_7) {
             filled.refuses("kind " + wrong, Checks.UNKNOWN, desk -> desk.verb(wrong, 1, 1, 1, 1));
         }
@@ -58,7 +58,7 @@ public final class VerbTest {
 
     /** "Unknown: no such .. verb": 0 .. 7. */
     private static void unknownVerb(Checks checks) {
-        OnScene filled = new OnScene(checks, Scene::filled);
+        OnScene filled = OnScene.filled(checks);
         for (int wrong : NOT_0_TO_7) {
             filled.refuses("verb " + wrong, Checks.UNKNOWN, desk -> desk.verb(1, wrong, 1, 1, 1));
         }
@@ -71,7 +71,7 @@ public final class VerbTest {
 
     /** "Unknown: no such .. mode (0 .. 7)". */
     private static void unknownMode(Checks checks) {
-        OnScene filled = new OnScene(checks, Scene::filled);
+        OnScene filled = OnScene.filled(checks);
         for (int wrong : NOT_0_TO_7) {
             filled.refuses("mode " + wrong, Checks.UNKNOWN, desk -> desk.verb(1, 1, wrong, 1, 1));
             filled.refuses("mode " + wrong + " of a verb without one", Checks.UNKNOWN,
@@ -90,7 +90,7 @@ public final class VerbTest {
 
     /** "0 none". */
     private static void modeNone(Checks checks) {
-        OnScene filled = new OnScene(checks, Scene::filled);
+        OnScene filled = OnScene.filled(checks);
         ServiceDesk desk = Scene.filled().desk;
         checks.goes("mode 0", () -> desk.verb(1, 1, 0, 1, 1));
         checks.throwing("has no mode any more", Checks.UNKNOWN, () -> desk.simulate(1, 1, 1, 0));
@@ -100,7 +100,7 @@ public final class VerbTest {
 
     /** "range: a", which is -1,000 .. 1,000. */
     private static void rangeOfA(Checks checks) {
-        OnScene filled = new OnScene(checks, Scene::filled);
+        OnScene filled = OnScene.filled(checks);
         for (int wrong : TOO_FAR) {
             for (int mode = 0; mode < 8; mode++) {
                 int m = mode;
@@ -116,7 +116,7 @@ public final class VerbTest {
 
     /** "range: .. b", which is -1,000 .. 1,000. */
     private static void rangeOfB(Checks checks) {
-        OnScene filled = new OnScene(checks, Scene::filled);
+        OnScene filled = OnScene.filled(checks);
         for (int wrong : TOO_FAR) {
             for (int mode = 0; mode < 8; mode++) {
                 int m = mode;
@@ -132,7 +132,7 @@ public final class VerbTest {
 
     /** "Refusals, in this order". */
     private static void unknownBeforeRange(Checks checks) {
-        OnScene filled = new OnScene(checks, Scene::filled);
+        OnScene filled = OnScene.filled(checks);
         for (int wrong : TOO_FAR) {
             filled.refuses("kind, a", Checks.UNKNOWN, desk -> desk.verb(8, 1, 1, wrong, 0));
             filled.refuses("kind, b", Checks.UNKNOWN, desk -> desk.verb(-1, 1, 1, 0, wrong));
@@ -144,7 +144,7 @@ public final class VerbTest {
     }
 
     private static void neitherATurnNorInTheBook(Checks checks) {
-        OnScene filled = new OnScene(checks, Scene::filled);
+        OnScene filled = OnScene.filled(checks);
         int book = Scene.filled().desk.book();
         int turns = Scene.filled().desk.count(0);
         filled.takes("book", desk -> desk.verb(3, 3, 3, 3, 3), book, ServiceDesk::book);

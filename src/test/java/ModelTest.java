@@ -35,15 +35,23 @@ public final class ModelTest {
     }
 
     private boolean differsIn(int run) {
-        for (int call = 0; call < CALLS; call++) {
-            String[] answers = run % 2 == 0 && call < 30 ? setUp(call) : anyCall();
+        for (int call = 0; call <= CALLS; call++) {
+            String[] answers = next(run, call);
             if (!answers[0].equals(answers[1])) {
                 System.out.println("run " + run + ", call " + call + ", " + last + ": got "
                         + answers[0] + ", due is " + answers[1]);
                 return true;
             }
         }
-        return !Integer.toString(desk.book()).equals(model.book());
+        return false;
+    }
+
+    private String[] next(int run, int call) {
+        if (call == CALLS) {
+            last = "book";
+            return both(desk::book, model.book());
+        }
+        return run % 2 == 0 && call < 30 ? setUp(call) : anyCall();
     }
 
     private int below(int bound) {
